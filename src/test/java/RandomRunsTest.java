@@ -1,0 +1,251 @@
+import java.lang.reflect.InvocationTargetException;
+import java.lang.reflect.Method;
+import java.util.ArrayList;
+import java.util.Arrays;
+import java.util.Comparator;
+import java.util.List;
+
+/** Runs of many calls, the same ones each time, on HexCampaign and on NaiveCampaign. */
+public final class RandomRunsTest {
+    private static final int RUNS = 400;
+    private static final int CALLS = 512;
+    private static final String[] CHANGES = {"setTerrain", "setSource", "set", "add", "add", "add", "move",
+        "move", "move", "move", "move", "attack", "attack", "attack", "endTurn", "feed", "feed", "readMap",
+        "undo", "save", "restore"};
+    private static final String[] MARCHES = {"move", "move", "move", "move", "move", "move", "attack", "endTurn",
+        "undo"};
+    private static final List<Integer> NOTED = new ArrayList<>();
+    private static long number = 1;
+    private static int[] counts = new int[7];
+    /** Whether the units of this run stand far from one another, on roads, in rain. */
+    private static boolean isWide = false;
+
+    private static int draw(int bound) {
+        number = number * 6364136223846793005L + 1442695040888963407L;
+        return (int) ((number >>> 33) % bound);
+    }
+
+    private static boolean oneIn(int bound) {
+        return draw(bound) == 0;
+    }
+
+    private static int wild(int bound) {
+        int[] edges = {-1, bound, Integer.MIN_VALUE, Integer.MAX_VALUE, bound + 1, 64, -64, 16, 32};
+        return oneIn(40) ? edges[draw(edges.length)] : draw(bound);
+    }
+
+    public static void main(String[] args) {
+        Method[] methods = HexCampaign.class.getDeclaredMethods();
+        List<Method> face = new ArrayList<>();
+        for (Method m : methods) {
+            if (java.lang.reflect.Modifier.isPublic(m.getModifiers())) {
+                face.add(m);
+            }
+        }
+        face.sort(Comparator.comparing(Method::getName));
+        for (int run = 0; run < RUNS; run++) {
+            number = run + 1;
+            play(face, run);
+        }
+        System.out.println("ambushes " + counts[0] + ", results " + counts[1] + " " + counts[2] + " " + counts[3]
+                + ", refused moves " + counts[4] + ", moves " + counts[5] + ", stopped " + counts[6]);
+        Check.same("each kind of result is met", isEachMet(), true);
+        Check.end();
+    }
+
+    private static boolean isEachMet() {
+        for (int count : counts) {
+            if (count < 20) {
+                return false;
+            }
+        }
+        return true;
+    }
+
+    private static void play(List<Method> face, int run) {
+        HexCampaign x = new HexCampaign();
+        NaiveCampaign n = new NaiveCampaign();
+        isWide = run % 2 == 1;
+        if (isWide) {
+            compare(find(face, "set"), new Object[] {true, 1}, x, n, "run " + run + ": ");
+            compare(find(face, "set"), new Object[] {false, 30}, x, n, "run " + run + ": ");
+        }
+        boolean isWarm = isWide || oneIn(2);
+        int limit = run % 4 == 0 ? CALLS : 220;
+        NOTED.clear();
+        for (int i = 0; i < limit; i++) {
+            Method m = pick(face);
+            Object[] values = isWarm && i < 110 ? null : valuesFor(m.getName(), x);
+            if (values == null) {
+                m = find(face, i < 80 ? "setTerrain" : i < 94 ? "setSource" : "add");
+                values = valuesFor(m.getName(), x);
+            }
+            boolean isRare = m.getName().equals("start") || m.getName().equals("restore");
+            if (isRare && !oneIn(12)) {
+                continue;
+            }
+            int before = x.count(6);
+            compare(m, values, x, n, "run " + run + " call " + i + ": ");
+            counts[0] += m.getName().equals("move") && x.count(6) > before ? 1 : 0;
+        }
+    }
+
+    private static Method find(List<Method> face, String name) {
+        for (Method m : face) {
+            if (m.getName().equals(name)) {
+                return m;
+            }
+        }
+        throw new IllegalStateException(name);
+    }
+
+    private static Method pick(List<Method> face) {
+        if (isWide && !oneIn(5)) {
+            return find(face, MARCHES[draw(MARCHES.length)]);
+        }
+        return oneIn(3) ? face.get(draw(face.size())) : find(face, CHANGES[draw(CHANGES.length)]);
+    }
+
+    private static void compare(Method m, Object[] values, HexCampaign x, NaiveCampaign n, String where) {
+        Object got = answer(m, x, values);
+        Object due = null;
+        try {
+            due = answer(NaiveCampaign.class.getMethod(m.getName(), m.getParameterTypes()), n, values);
+        } catch (NoSuchMethodException e) {
+            due = e;
+        }
+        note(m.getName(), values, due);
+        Check.same(where + m.getName() + Arrays.toString(values), got, due);
+    }
+
+    private static void note(String name, Object[] values, Object due) {
+        if (name.equals("attack") && due instanceof Integer) {
+            counts[1 + (Integer) due]++;
+        }
+        if (name.equals("move")) {
+            counts[4] += due == UnsupportedOperationException.class ? 1 : 0;
+            counts[5] += due instanceof Integer ? 1 : 0;
+            counts[6] += due instanceof Integer && !due.equals(values[1]) ? 1 : 0;
+        }
+    }
+
+    private static Object answer(Method m, Object object, Object[] values) {
+        try {
+            return m.invoke(object, values);
+        } catch (InvocationTargetException e) {
+            return e.getCause().getClass();
+        } catch (IllegalAccessException e) {
+            return e;
+        }
+    }
+
+    private static int aUnit(HexCampaign x) {
+        return oneIn(10) ? wild(16) : draw(Math.max(1, Math.min(16, x.count(0) + 3)));
+    }
+
+    private static int placeOf(HexCampaign x, int unit) {
+        try {
+            return x.unit(unit, 1);
+        } catch (IndexOutOfBoundsException e) {
+            return draw(63);
+        }
+    }
+
+    /** A cell near others, so that units meet. */
+    private static int near(int cell) {
+        int found = cell;
+        for (int i = draw(4); i >= 0; i--) {
+            found = beside(found);
+        }
+        return found;
+    }
+
+    private static int beside(int cell) {
+        try {
+            return new HexCampaign().neighbor(cell, draw(6));
+        } catch (RuntimeException e) {
+            return cell;
+        }
+    }
+
+    private static int goal(HexCampaign x, int unit) {
+        try {
+            long reach = x.reach(unit);
+            int cell = draw(63);
+            for (int i = 0; i < 63 && !oneIn(25); i++) {
+                cell = (cell + 1) % 63;
+                if ((reach >>> cell & 1) != 0) {
+                    return cell;
+                }
+            }
+            return cell;
+        } catch (IndexOutOfBoundsException e) {
+            return wild(63);
+        }
+    }
+
+    private static int addedAt() {
+        return oneIn(30) || isWide ? wild(63) : near(20 + draw(8));
+    }
+
+    private static Object[] valuesFor(String name, HexCampaign x) {
+        int unit = aUnit(x);
+        switch (name) {
+            case "start": return new Object[] {draw(Integer.MAX_VALUE) - 1000000000};
+            case "setTerrain": return new Object[] {wild(63), oneIn(isWide ? 2 : 3) ? 4 : wild(6), !oneIn(isWide ? 12 : 3)};
+            case "setSource": return new Object[] {wild(63), wild(2), !oneIn(4)};
+            case "set": return oneIn(isWide ? 20 : 2) ? new Object[] {true, wild(3)} : new Object[] {false, wild(31)};
+            case "cell": return new Object[] {wild(63), wild(5)};
+            case "neighbor": return new Object[] {wild(63), wild(6)};
+            case "distance": return new Object[] {wild(63), wild(63)};
+            case "count": return new Object[] {wild(8)};
+            case "add": return new Object[] {wild(2), addedAt(),
+                oneIn(20) ? wild(11) : 1 + draw(6), oneIn(20) ? wild(14) : isWide ? 8 + draw(5) : 1 + draw(12)};
+            case "unit": return new Object[] {unit, wild(10)};
+            case "known": return new Object[] {wild(2)};
+            case "cells": return new Object[] {wild(2), wild(5)};
+            case "isSeen": return new Object[] {wild(63), wild(63)};
+            case "supplyCost": return new Object[] {wild(2), wild(63)};
+            case "reach": return new Object[] {unit};
+            case "cost": return new Object[] {unit, wild(63)};
+            case "way": return new Object[] {unit, wild(63), oneIn(9) ? wild(63) : draw(6)};
+            case "move": return new Object[] {unit, goal(x, unit)};
+            case "odds":
+            case "attack": return fightValues(name, x, unit);
+            case "account": return new Object[] {wild(2), wild(6)};
+            case "report": return new Object[] {wild(4), wild(3)};
+            case "feed": return new Object[] {letter()};
+            case "text": return new Object[] {wild(69)};
+            default: return new Object[] {};
+        }
+    }
+
+    private static char letter() {
+        NOTED.add(0);
+        String letters = "pwhsmPWHSM~";
+        if (NOTED.size() % 10 == 0 && !oneIn(5)) {
+            return '/';
+        }
+        return oneIn(60) ? (char) draw(65536) : letters.charAt(draw(oneIn(3) ? 11 : 10));
+    }
+
+    private static Object[] fightValues(String name, HexCampaign x, int unit) {
+        int from = placeOf(x, unit);
+        int to = beside(from);
+        for (int direction = 0; direction < 6; direction++) {
+            try {
+                int cell = x.neighbor(from, direction);
+                int there = x.cell(cell, 3);
+                if (there != 0 && !oneIn(10)) {
+                    to = cell;
+                }
+            } catch (RuntimeException e) {
+                to = to + 0;
+            }
+        }
+        if (oneIn(30)) {
+            to = wild(63);
+        }
+        return name.equals("odds") ? new Object[] {from, to, oneIn(2)} : new Object[] {from, to};
+    }
+}

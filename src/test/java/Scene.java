@@ -1,0 +1,94 @@
+import java.util.ArrayDeque;
+import java.util.Arrays;
+import java.util.Deque;
+import java.util.NoSuchElementException;
+
+/** Maps and games that several tests begin with. */
+final class Scene {
+    private Scene() {
+    }
+
+    static String text(HexCampaign x) {
+        StringBuilder all = new StringBuilder();
+        for (int i = 0; i < 69; i++) {
+            all.append(x.text(i));
+        }
+        return all.toString();
+    }
+
+    static void feed(HexCampaign x, String letters) {
+        for (int i = 0; i < letters.length(); i++) {
+            x.feed(letters.charAt(i));
+        }
+    }
+
+    static HexCampaign ofText(String map) {
+        HexCampaign x = new HexCampaign();
+        feed(x, map);
+        x.readMap();
+        return x;
+    }
+
+    /** The third row of the map, cells 18 to 26, begins as told; the rest of it is water. */
+    static HexCampaign corridor(String letters) {
+        String row = (letters + "~~~~~~~~~").substring(0, 9);
+        return ofText("~~~~~~~~~/~~~~~~~~~/" + row + ("/~~~~~~~~~").repeat(4));
+    }
+
+    /** A set of cells, by their numbers. */
+    static long set(int... cells) {
+        long found = 0;
+        for (int cell : cells) {
+            found |= 1L << cell;
+        }
+        return found;
+    }
+
+    static int[] stepsFrom(HexCampaign x, int from) {
+        int[] steps = new int[63];
+        Arrays.fill(steps, -1);
+        steps[from] = 0;
+        Deque<Integer> open = new ArrayDeque<>();
+        open.add(from);
+        while (!open.isEmpty()) {
+            int cell = open.removeFirst();
+            for (int direction = 0; direction < 6; direction++) {
+                try {
+                    int next = x.neighbor(cell, direction);
+                    if (steps[next] < 0) {
+                        steps[next] = steps[cell] + 1;
+                        open.add(next);
+                    }
+                } catch (NoSuchElementException e) {
+                    continue;
+                }
+            }
+        }
+        return steps;
+    }
+
+    /**
+     * A game with something of everything: in round 1, on the turn of side 1, in snow, with the
+     * supply range 30, after one attack, with a moved unit, and one of four units removed.
+     */
+    static HexCampaign busy() {
+        HexCampaign x = new HexCampaign();
+        x.setTerrain(0, 1, true);
+        x.setTerrain(1, 5, false);
+        x.set(false, 30);
+        x.setSource(18, 0, true);
+        x.setSource(26, 1, true);
+        x.add(0, 19, 9, 5);
+        x.add(1, 20, 1, 5);
+        x.add(1, 25, 4, 5);
+        x.add(0, 36, 3, 3);
+        x.attack(19, 20);
+        x.endTurn();
+        x.endTurn();
+        x.move(3, 37);
+        x.set(true, 2);
+        x.endTurn();
+        x.move(2, 24);
+        return x;
+    }
+}

@@ -13,6 +13,7 @@ public final class AttackTest {
         promise21RetreatByUnits();
         promise21RetreatInOrder();
         promise21NoRetreat();
+        promise21FirstUnitRetreats();
         promise22Turns();
         promise22Supply();
         promise22Weather();
@@ -181,6 +182,13 @@ public final class AttackTest {
         x.setTerrain(21, 0, true);
         x.setTerrain(22, 1, true);
         Check.same("a road", refuge(x), 22);
+        x.set(true, 0);
+        x.setTerrain(22, 1, false);
+        x.setTerrain(30, 1, true);
+        Check.same("a road of the greatest number", refuge(x), 30);
+        x.undo();
+        x.undo();
+        x.undo();
         x.setTerrain(22, 5, false);
         Check.same("no water", refuge(x), 30);
         x.add(0, 31, 1, 1);
@@ -248,6 +256,15 @@ public final class AttackTest {
         Check.same("account(1, 2) of what they had", x.account(1, 2), 5);
         Check.same("account(1, 5)", x.account(1, 5), 1);
         Check.same("cell(21, 4)", x.cell(21, 4), 1);
+    }
+
+    private static void promise21FirstUnitRetreats() {
+        HexCampaign x = new HexCampaign();
+        x.add(1, 21, 4, 1);
+        x.add(0, 20, 9, 1);
+        Check.same("5 on 2", x.attack(20, 21), 2);
+        Check.same("unit(0, 1)", x.unit(0, 1), 12);
+        Check.same("unit(0, 2)", x.unit(0, 2), 3);
     }
 
     private static void promise22Turns() {
@@ -327,6 +344,9 @@ public final class AttackTest {
         HexCampaign x = new HexCampaign();
         Check.refused("balance()", ArithmeticException.class, x::balance);
         x.add(0, 0, 5, 1);
+        x.add(1, 62, 1, 1);
+        Check.same("3 by 1", x.balance(), 3.0);
+        x.undo();
         Check.refused("balance() without units of side 1", ArithmeticException.class, x::balance);
         x.add(1, 62, 9, 1);
         Check.same("3 by 5", x.balance(), 3.0 / 5.0);

@@ -7,6 +7,7 @@ public final class MapTest {
     public static void main(String[] args) {
         promise1NewObject();
         promise2Start();
+        promise2Everything();
         promise2WeatherOfSeeds();
         promise2KeepsSavedReportAndInput();
         promise3SetTerrain();
@@ -51,6 +52,29 @@ public final class MapTest {
         Check.same("first unit after start", x.add(1, 5, 1, 1), 0);
         Check.same("start", x.start(-9), 1);
         isNew("second start", x);
+    }
+
+    private static void promise2Everything() {
+        HexCampaign x = Scene.ambushed();
+        x.attack(22, 23);
+        x.endTurn();
+        x.setSource(18, 0, false);
+        x.endTurn();
+        x.endTurn();
+        Check.same("lost for lack of supply", x.account(0, 3) > 0 && x.account(1, 3) > 0, true);
+        Check.same("lost in an attack", x.account(0, 2), 1);
+        Check.same("ambushes", x.count(6), 1);
+        x.endTurn();
+        x.attack(22, 23);
+        x.add(0, 18, 1, 4);
+        x.move(2, 19);
+        x.start(0);
+        isNew("start after losses", x);
+        for (int unit = 0; unit < 3; unit++) {
+            x.add(0, 20, 1, 1);
+            Check.same("unit(" + unit + ", 7)", x.unit(unit, 7), 1);
+            Check.same("unit(" + unit + ", 8)", x.unit(unit, 8), 1);
+        }
     }
 
     private static String weathers(HexCampaign x, int rounds) {

@@ -13,6 +13,7 @@ public final class MovementTest {
         promise17UnknownUnits();
         promise18LeastCells();
         promise18EqualCosts();
+        promise18FromZone();
         promise18Steps();
         promise16To18Refusals();
         promise19Move();
@@ -208,6 +209,20 @@ public final class MovementTest {
         way(x, 0, 18, 27, 28, 20);
     }
 
+    private static void promise18FromZone() {
+        HexCampaign x = new HexCampaign();
+        x.setTerrain(11, 1, true);
+        x.setTerrain(12, 0, true);
+        x.add(0, 21, 1, 1);
+        Check.same("cost(0, 11)", x.cost(0, 11), 2);
+        way(x, 0, 21, 11);
+        x.add(1, 20, 1, 1);
+        Check.same("cost(0, 11) in the zone", x.cost(0, 11), 2);
+        way(x, 0, 21, 12, 11);
+        x.add(0, 11, 1, 1);
+        way(x, 0, 21, 11);
+    }
+
     private static void promise18Steps() {
         HexCampaign x = Scene.corridor("ppppppppp");
         x.add(1, 26, 1, 1);
@@ -278,18 +293,9 @@ public final class MovementTest {
         Check.same("undo() after a report", x.undo(), 3);
     }
 
-    private static HexCampaign hiddenAt23(String letters) {
-        HexCampaign x = Scene.corridor(letters);
-        x.setSource(18, 0, true);
-        x.set(true, 1);
-        x.add(0, 18, 5, 12);
-        x.add(1, 23, 5, 12);
-        return x;
-    }
-
     private static void promise19Ambush() {
         for (int goal : new int[] {23, 24, 26}) {
-            HexCampaign x = hiddenAt23("PPPPMPPPP");
+            HexCampaign x = Scene.hiddenAt23("PPPPMPPPP");
             Check.same("move(0, " + goal + ")", x.move(0, goal), 22);
             Check.same("unit(0, 1)", x.unit(0, 1), 22);
             Check.same("count(6)", x.count(6), 1);
@@ -306,12 +312,12 @@ public final class MovementTest {
 
     private static void promise19StopInZone() {
         for (int goal : new int[] {22, 23, 24, 26}) {
-            HexCampaign x = hiddenAt23("PPPPPPPPP");
+            HexCampaign x = Scene.hiddenAt23("PPPPPPPPP");
             Check.same("move(0, " + goal + ")", x.move(0, goal), 22);
             Check.same("count(6)", x.count(6), 0);
             Check.same("unit(0, 7)", x.unit(0, 7), 0);
         }
-        HexCampaign x = hiddenAt23("PPPPPPPPP");
+        HexCampaign x = Scene.hiddenAt23("PPPPPPPPP");
         x.set(true, 0);
         Check.same("move(0, 21) in the open", x.move(0, 21), 21);
         x.undo();

@@ -5,7 +5,10 @@ import java.util.Arrays;
 import java.util.Comparator;
 import java.util.List;
 
-/** Runs of many calls, the same ones each time, on HexCampaign and on NaiveCampaign. */
+/**
+ * Runs of many calls, the same ones each time, on HexCampaign and on NaiveCampaign. Two arguments,
+ * the first run and their number, choose other runs.
+ */
 public final class RandomRunsTest {
     private static final int RUNS = 400;
     private static final int CALLS = 512;
@@ -14,9 +17,11 @@ public final class RandomRunsTest {
         "undo", "save", "restore"};
     private static final String[] MARCHES = {"move", "move", "move", "move", "move", "move", "attack", "endTurn",
         "undo"};
-    private static final List<Integer> NOTED = new ArrayList<>();
     private static long number = 1;
-    private static int[] counts = new int[7];
+    /** Ambushes, results 0 to 2, refused moves, moves, and moves that ended elsewhere. */
+    private static final int[] COUNTS = new int[7];
+    /** The letters that were fed to the map that is being read. */
+    private static int fed = 0;
     /** Whether the units of this run stand far from one another, on roads, in rain. */
     private static boolean isWide = false;
 
@@ -43,18 +48,20 @@ public final class RandomRunsTest {
             }
         }
         face.sort(Comparator.comparing(Method::getName));
-        for (int run = 0; run < RUNS; run++) {
+        int first = args.length > 0 ? Integer.parseInt(args[0]) : 0;
+        int runs = args.length > 1 ? Integer.parseInt(args[1]) : RUNS;
+        for (int run = first; run < first + runs; run++) {
             number = run + 1;
             play(face, run);
         }
-        System.out.println("ambushes " + counts[0] + ", results " + counts[1] + " " + counts[2] + " " + counts[3]
-                + ", refused moves " + counts[4] + ", moves " + counts[5] + ", stopped " + counts[6]);
+        System.out.println("ambushes " + COUNTS[0] + ", results " + COUNTS[1] + " " + COUNTS[2] + " " + COUNTS[3]
+                + ", refused moves " + COUNTS[4] + ", moves " + COUNTS[5] + ", stopped " + COUNTS[6]);
         Check.same("each kind of result is met", isEachMet(), true);
         Check.end();
     }
 
     private static boolean isEachMet() {
-        for (int count : counts) {
+        for (int count : COUNTS) {
             if (count < 20) {
                 return false;
             }
@@ -72,7 +79,7 @@ public final class RandomRunsTest {
         }
         boolean isWarm = isWide || oneIn(2);
         int limit = run % 4 == 0 ? CALLS : 220;
-        NOTED.clear();
+        fed = 0;
         for (int i = 0; i < limit; i++) {
             Method m = pick(face);
             Object[] values = isWarm && i < 110 ? null : valuesFor(m.getName(), x);
@@ -86,7 +93,7 @@ public final class RandomRunsTest {
             }
             int before = x.count(6);
             compare(m, values, x, n, "run " + run + " call " + i + ": ");
-            counts[0] += m.getName().equals("move") && x.count(6) > before ? 1 : 0;
+            COUNTS[0] += m.getName().equals("move") && x.count(6) > before ? 1 : 0;
         }
     }
 
@@ -120,12 +127,12 @@ public final class RandomRunsTest {
 
     private static void note(String name, Object[] values, Object due) {
         if (name.equals("attack") && due instanceof Integer) {
-            counts[1 + (Integer) due]++;
+            COUNTS[1 + (Integer) due]++;
         }
         if (name.equals("move")) {
-            counts[4] += due == UnsupportedOperationException.class ? 1 : 0;
-            counts[5] += due instanceof Integer ? 1 : 0;
-            counts[6] += due instanceof Integer && !due.equals(values[1]) ? 1 : 0;
+            COUNTS[4] += due == UnsupportedOperationException.class ? 1 : 0;
+            COUNTS[5] += due instanceof Integer ? 1 : 0;
+            COUNTS[6] += due instanceof Integer && !due.equals(values[1]) ? 1 : 0;
         }
     }
 
@@ -216,14 +223,17 @@ public final class RandomRunsTest {
             case "report": return new Object[] {wild(4), wild(3)};
             case "feed": return new Object[] {letter()};
             case "text": return new Object[] {wild(69)};
+            case "readMap":
+                fed = 0;
+                return new Object[] {};
             default: return new Object[] {};
         }
     }
 
     private static char letter() {
-        NOTED.add(0);
+        fed++;
         String letters = "pwhsmPWHSM~";
-        if (NOTED.size() % 10 == 0 && !oneIn(5)) {
+        if (fed % 10 == 0 && !oneIn(5)) {
             return '/';
         }
         return oneIn(60) ? (char) draw(65536) : letters.charAt(draw(oneIn(3) ? 11 : 10));
@@ -231,20 +241,11 @@ public final class RandomRunsTest {
 
     private static Object[] fightValues(String name, HexCampaign x, int unit) {
         int from = placeOf(x, unit);
-        int to = beside(from);
-        for (int direction = 0; direction < 6; direction++) {
-            try {
-                int cell = x.neighbor(from, direction);
-                int there = x.cell(cell, 3);
-                if (there != 0 && !oneIn(10)) {
-                    to = cell;
-                }
-            } catch (RuntimeException e) {
-                to = to + 0;
+        int to = oneIn(30) ? wild(63) : beside(from);
+        for (int cell = 0; cell < 63; cell++) {
+            if (x.distance(from, cell) == 1 && x.cell(cell, 3) != 0 && !oneIn(10)) {
+                to = cell;
             }
-        }
-        if (oneIn(30)) {
-            to = wild(63);
         }
         return name.equals("odds") ? new Object[] {from, to, oneIn(2)} : new Object[] {from, to};
     }

@@ -35,6 +35,23 @@ final class Scene {
         return ofText("~~~~~~~~~/~~~~~~~~~/" + row + ("/~~~~~~~~~").repeat(4));
     }
 
+    /** In rain, side 0 on cell 18 does not see the unit of side 1 on cell 23. */
+    static HexCampaign hiddenAt23(String letters) {
+        HexCampaign x = corridor(letters);
+        x.setSource(18, 0, true);
+        x.set(true, 1);
+        x.add(0, 18, 5, 12);
+        x.add(1, 23, 5, 12);
+        return x;
+    }
+
+    /** A mountain beside the hidden unit is in no zone, so that the way of unit 0 leads into it. */
+    static HexCampaign ambushed() {
+        HexCampaign x = hiddenAt23("PPPPMPPPP");
+        x.move(0, 24);
+        return x;
+    }
+
     /** A set of cells, by their numbers. */
     static long set(int... cells) {
         long found = 0;

@@ -11,6 +11,7 @@ public final class TextTest {
         promise27EndsAnywhere();
         promise27Errors();
         promise27WaterUnderUnits();
+        promise27WaterUnderTheFirstAndTheLast();
         promise28Text();
         Check.end();
     }
@@ -125,6 +126,20 @@ public final class TextTest {
         Check.same("undo()", x.undo(), 2);
         Check.same("undo()", x.undo(), 1);
         Check.same("undo()", x.undo(), 0);
+    }
+
+    private static void promise27WaterUnderTheFirstAndTheLast() {
+        HexCampaign x = new HexCampaign();
+        x.add(1, 0, 1, 1);
+        x.feed('~');
+        Check.refused("water on 0", IllegalStateException.class, x::readMap);
+        Scene.feed(x, WHOLE);
+        Check.same("a plain on 0", x.readMap(), 63);
+        x.start(0);
+        x.add(0, 62, 1, 1);
+        Scene.feed(x, WHOLE.substring(0, 68) + '~');
+        Check.refused("water on 62", IllegalStateException.class, x::readMap);
+        Check.same("text", Scene.text(x).indexOf('~'), -1);
     }
 
     private static void promise28Text() {

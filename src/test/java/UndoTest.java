@@ -2,11 +2,13 @@
 public final class UndoTest {
     public static void main(String[] args) {
         promise29EachChange();
+        promise29LossesAndAmbushes();
         promise29Order();
         promise29MostChanges();
         promise29NotWhatIsNoChange();
         promise29WeatherAndNumbers();
         promise30And31SaveAndRestore();
+        promise31RestoresOtherUnits();
         promise31NothingSaved();
         promise31KeepsReportAndInput();
         Check.end();
@@ -37,6 +39,20 @@ public final class UndoTest {
         takenBack("endTurn of side 0", x, x::endTurn);
         takenBack("move", x, () -> x.move(0, 18));
         takenBack("attack of side 0", x, () -> x.attack(23, 24));
+    }
+
+    private static void promise29LossesAndAmbushes() {
+        HexCampaign x = new HexCampaign();
+        x.add(0, 20, 1, 3);
+        takenBack("endTurn that removes a unit", x, () -> {
+            Check.same("endTurn()", x.endTurn(), 1);
+            Check.same("account(0, 5)", x.account(0, 5), 1);
+        });
+        HexCampaign y = Scene.hiddenAt23("PPPPMPPPP");
+        takenBack("move into an ambush", y, () -> {
+            y.move(0, 24);
+            Check.same("count(6)", y.count(6), 1);
+        });
     }
 
     private static void promise29Order() {
@@ -147,6 +163,18 @@ public final class UndoTest {
         x.start(0);
         Check.same("restore()", x.restore(), 2);
         Check.same("count(1)", x.count(1), 12);
+    }
+
+    private static void promise31RestoresOtherUnits() {
+        HexCampaign x = new HexCampaign();
+        x.add(1, 20, 3, 3);
+        String before = Sight.of(x);
+        x.save();
+        x.start(0);
+        x.add(0, 21, 4, 12);
+        x.add(1, 22, 2, 12);
+        Check.same("restore()", x.restore(), 1);
+        Check.same("state after restore", Sight.of(x), before);
     }
 
     private static void promise31NothingSaved() {

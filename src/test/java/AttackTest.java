@@ -24,8 +24,8 @@ public final class AttackTest {
     }
 
     /** Both sides are supplied where their units of these strengths stand, on 20 and on 21. */
-    private static HexCampaign facing(int strength, int other) {
-        HexCampaign x = new HexCampaign();
+    private static Played facing(int strength, int other) {
+        Played x = new Played();
         x.setSource(20, 0, true);
         x.setSource(21, 1, true);
         x.add(0, 20, strength, 5);
@@ -33,13 +33,13 @@ public final class AttackTest {
         return x;
     }
 
-    private static void odds(HexCampaign x, int attack, int defense) {
+    private static void odds(Played x, int attack, int defense) {
         Check.same("odds(20, 21, false)", x.odds(20, 21, false), attack);
         Check.same("odds(20, 21, true)", x.odds(20, 21, true), defense);
     }
 
     private static void promise20Odds() {
-        HexCampaign x = facing(5, 3);
+        Played x = facing(5, 3);
         odds(x, 5, 3);
         x.add(0, 20, 4, 1);
         x.add(0, 20, 3, 1);
@@ -65,7 +65,7 @@ public final class AttackTest {
     }
 
     private static void promise20WhoAttacks() {
-        HexCampaign x = facing(5, 9);
+        Played x = facing(5, 9);
         x.attack(20, 21);
         x.add(0, 20, 2, 5);
         odds(x, 2, 9);
@@ -82,7 +82,7 @@ public final class AttackTest {
     }
 
     private static void promise20And21Refusals() {
-        HexCampaign x = facing(5, 3);
+        Played x = facing(5, 3);
         x.add(0, 10, 1, 1);
         for (int cell : new int[] {-1, 63, Integer.MIN_VALUE, Integer.MAX_VALUE}) {
             both(x, IndexOutOfBoundsException.class, cell, 21);
@@ -98,7 +98,7 @@ public final class AttackTest {
         Check.same("undo() after refusals", x.undo(), 4);
     }
 
-    private static void both(HexCampaign x, Class<? extends RuntimeException> due, int from, int to) {
+    private static void both(Played x, Class<? extends RuntimeException> due, int from, int to) {
         Check.refused("odds(" + from + ", " + to + ", false)", due, () -> x.odds(from, to, false));
         Check.refused("odds(" + from + ", " + to + ", true)", due, () -> x.odds(from, to, true));
         Check.refusedUnchanged(x, "attack(" + from + ", " + to + ")", due, () -> x.attack(from, to));
@@ -108,7 +108,7 @@ public final class AttackTest {
         for (int strength = 1; strength <= 9; strength++) {
             for (int other = 1; other <= 9; other++) {
                 int due = strength >= 2 * other ? 2 : strength > other ? 1 : 0;
-                HexCampaign x = facing(strength, other);
+                Played x = facing(strength, other);
                 Check.same("attack of " + strength + " on " + other, x.attack(20, 21), due);
                 Check.same("count(7)", x.count(7), 1);
                 Check.same("lost by 0", x.account(0, 2), due == 2 ? 0 : 1);
@@ -120,7 +120,7 @@ public final class AttackTest {
         }
     }
 
-    private static void strengths(HexCampaign x, int... dues) {
+    private static void strengths(Played x, int... dues) {
         for (int unit = 0; unit < dues.length; unit++) {
             int u = unit;
             if (dues[unit] == 0) {
@@ -132,17 +132,17 @@ public final class AttackTest {
     }
 
     private static void promise21LossesOfEach() {
-        HexCampaign x = facing(3, 2);
+        Played x = facing(3, 2);
         x.add(0, 20, 1, 1);
         x.add(1, 21, 1, 1);
         Check.same("4 on 3", x.attack(20, 21), 1);
         strengths(x, 2, 1, 1, 1);
-        HexCampaign y = facing(3, 4);
+        Played y = facing(3, 4);
         y.add(0, 20, 1, 1);
         y.add(1, 21, 1, 1);
         Check.same("4 on 5", y.attack(20, 21), 0);
         strengths(y, 2, 4, 0, 1);
-        HexCampaign z = facing(6, 2);
+        Played z = facing(6, 2);
         z.add(0, 20, 4, 1);
         z.add(1, 21, 1, 1);
         z.add(1, 21, 2, 1);
@@ -153,7 +153,7 @@ public final class AttackTest {
     }
 
     private static void promise21Unseen() {
-        HexCampaign x = facing(9, 2);
+        Played x = facing(9, 2);
         x.set(true, 1);
         x.setTerrain(20, 5 - 1, false);
         Check.same("unit(1, 9)", x.unit(1, 9), 1);
@@ -161,7 +161,7 @@ public final class AttackTest {
         Check.same("unit(1, 1)", x.unit(1, 1), 12);
     }
 
-    private static int refuge(HexCampaign x) {
+    private static int refuge(Played x) {
         Check.same("attack(20, 21)", x.attack(20, 21), 2);
         int found = x.unit(1, 1);
         x.undo();
@@ -169,7 +169,7 @@ public final class AttackTest {
     }
 
     private static void promise21RetreatChoice() {
-        HexCampaign x = facing(9, 2);
+        Played x = facing(9, 2);
         Check.same("the lowest number", refuge(x), 12);
         x.setTerrain(12, 1, false);
         Check.same("the least cost", refuge(x), 22);
@@ -201,7 +201,7 @@ public final class AttackTest {
     }
 
     private static void promise21RetreatByUnits() {
-        HexCampaign x = facing(9, 4);
+        Played x = facing(9, 4);
         x.setTerrain(22, 5, false);
         x.setTerrain(12, 5, false);
         x.add(0, 30, 1, 1);
@@ -220,7 +220,7 @@ public final class AttackTest {
     }
 
     private static void promise21RetreatInOrder() {
-        HexCampaign x = facing(6, 3);
+        Played x = facing(6, 3);
         x.add(0, 20, 6, 1);
         x.add(1, 21, 2, 1);
         x.add(1, 21, 1, 1);
@@ -229,7 +229,7 @@ public final class AttackTest {
         strengths(x, 6, 2, 6, 1, 0, 9);
         Check.same("the first one to a cell with room", x.unit(1, 1), 12);
         Check.same("the second one as well", x.unit(3, 1), 12);
-        HexCampaign y = facing(6, 3);
+        Played y = facing(6, 3);
         y.add(0, 20, 6, 1);
         y.add(1, 21, 2, 1);
         y.add(1, 12, 9, 1);
@@ -240,7 +240,7 @@ public final class AttackTest {
     }
 
     private static void promise21NoRetreat() {
-        HexCampaign x = facing(9, 4);
+        Played x = facing(9, 4);
         for (int cell : new int[] {22, 12, 30}) {
             x.setTerrain(cell, 5, false);
         }
@@ -259,7 +259,7 @@ public final class AttackTest {
     }
 
     private static void promise21FirstUnitRetreats() {
-        HexCampaign x = new HexCampaign();
+        Played x = new Played();
         x.add(1, 21, 4, 1);
         x.add(0, 20, 9, 1);
         Check.same("5 on 2", x.attack(20, 21), 2);
@@ -268,7 +268,7 @@ public final class AttackTest {
     }
 
     private static void promise22Turns() {
-        HexCampaign x = new HexCampaign();
+        Played x = new Played();
         for (int i = 0; i < 6; i++) {
             Check.same("count(1)", x.count(1), i / 2);
             Check.same("count(2)", x.count(2), i % 2);
@@ -277,7 +277,7 @@ public final class AttackTest {
     }
 
     private static void promise22Supply() {
-        HexCampaign x = new HexCampaign();
+        Played x = new Played();
         x.setSource(0, 0, true);
         x.add(0, 0, 1, 1);
         x.add(0, 10, 1, 1);
@@ -299,7 +299,7 @@ public final class AttackTest {
     }
 
     private static void promise22Weather() {
-        HexCampaign x = new HexCampaign();
+        Played x = new Played();
         x.start(7);
         int[] dues = {0, 0, 0, 0, 2, 0, 0, 0, 2, 0, 2, 1};
         for (int due : dues) {
@@ -313,7 +313,7 @@ public final class AttackTest {
     }
 
     private static void promise23Account() {
-        HexCampaign x = Scene.busy();
+        Played x = Scene.busy();
         int[][] dues = {{12, 12, 0, 0, 2, 0}, {5, 4, 1, 0, 1, 1}};
         for (int side = 0; side < 2; side++) {
             for (int what = 0; what < 6; what++) {
@@ -331,7 +331,7 @@ public final class AttackTest {
     }
 
     private static void promise23Refusals() {
-        HexCampaign x = new HexCampaign();
+        Played x = new Played();
         for (int side : new int[] {-1, 2, Integer.MIN_VALUE, Integer.MAX_VALUE}) {
             Check.refused("account(" + side + ", 9)", IndexOutOfBoundsException.class, () -> x.account(side, 9));
         }
@@ -341,7 +341,7 @@ public final class AttackTest {
     }
 
     private static void promise24Balance() {
-        HexCampaign x = new HexCampaign();
+        Played x = new Played();
         Check.refused("balance()", ArithmeticException.class, x::balance);
         x.add(0, 0, 5, 1);
         x.add(1, 62, 1, 1);

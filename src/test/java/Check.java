@@ -1,7 +1,10 @@
+import java.util.List;
 import java.util.Objects;
 
 /** What the tests compare with, and how they end. */
 final class Check {
+    /** Numbers that are far out of every range of the document. */
+    static final int[] FAR = {Integer.MIN_VALUE, Integer.MAX_VALUE};
     private static int wrong = 0;
 
     private Check() {
@@ -25,12 +28,29 @@ final class Check {
         same(what + " throws", got, due);
     }
 
-    /** A call that is refused, and changes nothing that can be seen. */
-    static void refusedUnchanged(HexCampaign x, String what, Class<? extends RuntimeException> due,
+    /** A call that is refused, and changes nothing that can be asked. */
+    static void refusedUnchanged(Played x, String what, Class<? extends RuntimeException> due,
             Runnable call) {
-        String before = Sight.of(x);
+        List<String> before = x.sight();
         refused(what, due, call);
-        same(what + " leaves the state", Sight.of(x), before);
+        sameSight("after " + what, x.sight(), before);
+    }
+
+    /** Tells the first line that is not as due. */
+    static void sameSight(String what, List<String> got, List<String> due) {
+        for (int i = 0; i < Math.max(got.size(), due.size()); i++) {
+            String one = i < got.size() ? got.get(i) : "nothing";
+            String other = i < due.size() ? due.get(i) : "nothing";
+            if (!one.equals(other)) {
+                same(what + ", a line of the state", one, other);
+                return;
+            }
+        }
+    }
+
+    /** A bit of a set of cells. */
+    static void holds(String what, long set, int cell, boolean due) {
+        same(what + " with the cell " + cell, (set >>> cell & 1) != 0, due);
     }
 
     static void end() {

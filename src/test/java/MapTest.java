@@ -1,3 +1,4 @@
+import java.util.List;
 import java.util.NoSuchElementException;
 
 /** Promises 1 to 9: a new object, start, the map and the counts. */
@@ -21,7 +22,7 @@ public final class MapTest {
         Check.end();
     }
 
-    private static void isNew(String what, HexCampaign x) {
+    private static void isNew(String what, Played x) {
         Check.same(what + ": text", Scene.text(x), PLAINS);
         int[] counts = {0, 0, 0, 0, 10, 4, 0, 0};
         for (int i = 0; i < counts.length; i++) {
@@ -38,7 +39,7 @@ public final class MapTest {
     }
 
     private static void promise1NewObject() {
-        HexCampaign x = new HexCampaign();
+        Played x = new Played();
         isNew("new", x);
         Check.refused("report(0, 0)", NoSuchElementException.class, () -> x.report(0, 0));
         Check.refused("restore()", IllegalStateException.class, x::restore);
@@ -46,7 +47,7 @@ public final class MapTest {
     }
 
     private static void promise2Start() {
-        HexCampaign x = Scene.busy();
+        Played x = Scene.busy();
         Check.same("start after 4 units, one of them removed", x.start(0), 3);
         isNew("start", x);
         Check.same("first unit after start", x.add(1, 5, 1, 1), 0);
@@ -55,7 +56,7 @@ public final class MapTest {
     }
 
     private static void promise2Everything() {
-        HexCampaign x = Scene.ambushed();
+        Played x = Scene.ambushed();
         x.attack(22, 23);
         x.endTurn();
         x.setSource(18, 0, false);
@@ -77,7 +78,7 @@ public final class MapTest {
         }
     }
 
-    private static String weathers(HexCampaign x, int rounds) {
+    private static String weathers(Played x, int rounds) {
         StringBuilder all = new StringBuilder();
         for (int i = 0; i < rounds; i++) {
             x.endTurn();
@@ -90,7 +91,7 @@ public final class MapTest {
     private static void promise2WeatherOfSeeds() {
         int[] seeds = {1, 7, -1, Integer.MAX_VALUE, Integer.MIN_VALUE};
         String[] dues = {"001110020002", "000020002021", "021001100021", "200010021100", "001000100010"};
-        HexCampaign x = new HexCampaign();
+        Played x = new Played();
         for (int i = 0; i < seeds.length; i++) {
             x.start(seeds[i]);
             Check.same("weather of the seed " + seeds[i], weathers(x, 12), dues[i]);
@@ -98,11 +99,11 @@ public final class MapTest {
     }
 
     private static void promise2KeepsSavedReportAndInput() {
-        HexCampaign x = new HexCampaign();
+        Played x = new Played();
         x.add(0, 20, 4, 1);
         x.save();
         Check.refused("move(0, 40)", UnsupportedOperationException.class, () -> x.move(0, 40));
-        String report = Sight.report(x);
+        List<String> report = Sight.report(x);
         x.feed('w');
         x.start(3);
         Check.same("report after start", Sight.report(x), report);
@@ -114,7 +115,7 @@ public final class MapTest {
     }
 
     private static void promise3SetTerrain() {
-        HexCampaign x = new HexCampaign();
+        Played x = new Played();
         Check.same("setTerrain(0, 4, true)", x.setTerrain(0, 4, true), 0);
         Check.same("cell(0, 0)", x.cell(0, 0), 4);
         Check.same("cell(0, 1)", x.cell(0, 1), 1);
@@ -132,7 +133,7 @@ public final class MapTest {
     }
 
     private static void promise3Refusals() {
-        HexCampaign x = new HexCampaign();
+        Played x = new Played();
         x.add(1, 30, 1, 1);
         x.setTerrain(31, 2, true);
         for (int cell : new int[] {-1, 63, Integer.MIN_VALUE, Integer.MAX_VALUE}) {
@@ -151,7 +152,7 @@ public final class MapTest {
     }
 
     private static void promise4SetSource() {
-        HexCampaign x = new HexCampaign();
+        Played x = new Played();
         Check.same("setSource(7, 1, true)", x.setSource(7, 1, true), false);
         Check.same("setSource(7, 1, true)", x.setSource(7, 1, true), true);
         Check.same("cell(7, 2)", x.cell(7, 2), 2);
@@ -175,7 +176,7 @@ public final class MapTest {
     }
 
     private static void promise5Set() {
-        HexCampaign x = new HexCampaign();
+        Played x = new Played();
         Check.same("set(true, 2)", x.set(true, 2), 0);
         Check.same("set(true, 1)", x.set(true, 1), 2);
         Check.same("set(true, 0)", x.set(true, 0), 1);
@@ -196,7 +197,7 @@ public final class MapTest {
     }
 
     private static void promise6Cell() {
-        HexCampaign x = new HexCampaign();
+        Played x = new Played();
         x.add(0, 20, 4, 1);
         x.add(1, 30, 9, 1);
         x.add(0, 20, 3, 1);
@@ -216,7 +217,7 @@ public final class MapTest {
     }
 
     private static void promise7Neighbor() {
-        HexCampaign x = new HexCampaign();
+        Played x = new Played();
         int[] ofEven = {21, 11, 10, 19, 28, 29};
         int[] ofOdd = {31, 22, 21, 29, 39, 40};
         for (int direction = 0; direction < 6; direction++) {
@@ -239,13 +240,14 @@ public final class MapTest {
     }
 
     private static void promise8Distance() {
-        HexCampaign x = new HexCampaign();
         for (int one = 0; one < 63; one++) {
+            Played x = new Played();
             int[] due = Scene.stepsFrom(x, one);
             for (int other = 0; other < 63; other++) {
                 Check.same("distance(" + one + ", " + other + ")", x.distance(one, other), due[other]);
             }
         }
+        Played x = new Played();
         x.setTerrain(1, 5, false);
         Check.same("distance over water", x.distance(0, 2), 2);
         for (int cell : new int[] {-1, 63, Integer.MIN_VALUE, Integer.MAX_VALUE}) {
@@ -255,7 +257,7 @@ public final class MapTest {
     }
 
     private static void promise9Count() {
-        HexCampaign x = Scene.busy();
+        Played x = Scene.busy();
         int[] dues = {3, 1, 1, 2, 30, 3, 0, 1};
         for (int what = 0; what < dues.length; what++) {
             Check.same("count(" + what + ")", x.count(what), dues[what]);

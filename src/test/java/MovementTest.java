@@ -24,7 +24,7 @@ public final class MovementTest {
         Check.end();
     }
 
-    private static long within(HexCampaign x, int cell, int steps) {
+    private static long within(Played x, int cell, int steps) {
         long found = 0;
         for (int other = 0; other < 63; other++) {
             int distance = x.distance(cell, other);
@@ -35,13 +35,13 @@ public final class MovementTest {
 
     private static void promise16Allowance() {
         for (int movement = 1; movement <= 12; movement++) {
-            HexCampaign x = new HexCampaign();
+            Played x = new Played();
             x.add(1, 20, 9, movement);
             Check.same("reach without supply", x.reach(0), within(x, 20, (movement + 1) / 2));
             x.setSource(20, 1, true);
             Check.same("reach with supply", x.reach(0), within(x, 20, movement));
         }
-        HexCampaign x = Scene.corridor("ppwhsmppp");
+        Played x = Scene.corridor("ppwhsmppp");
         x.setSource(20, 0, true);
         x.add(0, 20, 1, 5);
         Check.same("reach over terrain", x.reach(0), Scene.set(18, 19, 21, 22));
@@ -52,7 +52,7 @@ public final class MovementTest {
     }
 
     private static void promise16Room() {
-        HexCampaign x = Scene.corridor("pppppp");
+        Played x = Scene.corridor("pppppp");
         x.setSource(18, 0, true);
         x.add(0, 18, 4, 5);
         x.add(0, 19, 9, 5);
@@ -70,7 +70,7 @@ public final class MovementTest {
     }
 
     private static void promise16HasMoved() {
-        HexCampaign x = Scene.corridor("pppppp");
+        Played x = Scene.corridor("pppppp");
         x.add(0, 20, 4, 2);
         x.move(0, 21);
         Check.same("reach after a move", x.reach(0), Scene.set(20, 22));
@@ -78,7 +78,7 @@ public final class MovementTest {
         Check.same("reach on the turn of the other side", x.reach(0), Scene.set(20, 22));
     }
 
-    private static void costs(HexCampaign x, int unit, int first, int... dues) {
+    private static void costs(Played x, int unit, int first, int... dues) {
         for (int i = 0; i < dues.length; i++) {
             int cell = first + i;
             if (dues[i] < 0) {
@@ -93,7 +93,7 @@ public final class MovementTest {
     }
 
     private static void promise17TerrainAndWeather() {
-        HexCampaign x = Scene.corridor("mpwhsmPMP");
+        Played x = Scene.corridor("mpwhsmPMP");
         x.add(0, 19, 1, 1);
         costs(x, 0, 18, 4, -1, 2, 4, 7, 11, 12, 13, 14);
         x.set(true, 1);
@@ -103,7 +103,7 @@ public final class MovementTest {
     }
 
     private static void promise17NoWay() {
-        HexCampaign x = Scene.corridor("ppp~ppppp");
+        Played x = Scene.corridor("ppp~ppppp");
         x.add(0, 18, 1, 1);
         costs(x, 0, 18, -1, 1, 2, -1, -1);
         costs(x, 0, 0, -1);
@@ -114,7 +114,7 @@ public final class MovementTest {
     }
 
     private static void promise17KnownZone() {
-        HexCampaign x = new HexCampaign();
+        Played x = new Played();
         x.add(0, 20, 1, 12);
         Check.same("cost(0, 14)", x.cost(0, 14), 4);
         x.add(1, 22, 1, 1);
@@ -133,7 +133,7 @@ public final class MovementTest {
     }
 
     private static void promise17StartInZone() {
-        HexCampaign x = new HexCampaign();
+        Played x = new Played();
         x.add(0, 21, 1, 12);
         x.add(1, 22, 1, 1);
         Check.same("cost(0, 12) without a unit there", x.cost(0, 12), 2);
@@ -150,7 +150,7 @@ public final class MovementTest {
     }
 
     private static void promise17UnknownUnits() {
-        HexCampaign x = Scene.corridor("ppppppppp");
+        Played x = Scene.corridor("ppppppppp");
         x.set(true, 1);
         x.add(0, 18, 1, 1);
         x.add(1, 21, 1, 1);
@@ -159,7 +159,7 @@ public final class MovementTest {
         costs(x, 0, 19, 2, 4, -1, -1);
     }
 
-    private static void way(HexCampaign x, int unit, int... cells) {
+    private static void way(Played x, int unit, int... cells) {
         int end = cells[cells.length - 1];
         for (int i = 0; i < cells.length; i++) {
             Check.same("way(" + unit + ", " + end + ", " + i + ")", x.way(unit, end, i), cells[i]);
@@ -171,7 +171,7 @@ public final class MovementTest {
     }
 
     private static void promise18LeastCells() {
-        HexCampaign x = new HexCampaign();
+        Played x = new Played();
         x.add(0, 20, 1, 1);
         way(x, 0, 20, 11);
         way(x, 0, 20, 11, 12);
@@ -186,7 +186,7 @@ public final class MovementTest {
     }
 
     private static void promise18EqualCosts() {
-        HexCampaign x = new HexCampaign();
+        Played x = new Played();
         for (int cell : new int[] {19, 27, 28}) {
             x.setTerrain(cell, 4, false);
         }
@@ -210,7 +210,7 @@ public final class MovementTest {
     }
 
     private static void promise18FromZone() {
-        HexCampaign x = new HexCampaign();
+        Played x = new Played();
         x.setTerrain(11, 1, true);
         x.setTerrain(12, 0, true);
         x.add(0, 21, 1, 1);
@@ -224,7 +224,7 @@ public final class MovementTest {
     }
 
     private static void promise18Steps() {
-        HexCampaign x = Scene.corridor("ppppppppp");
+        Played x = Scene.corridor("ppppppppp");
         x.add(1, 26, 1, 1);
         way(x, 0, 26, 25, 24, 23, 22, 21, 20, 19, 18);
         way(x, 0, 26, 25);
@@ -233,7 +233,7 @@ public final class MovementTest {
     }
 
     private static void promise16To18Refusals() {
-        HexCampaign x = new HexCampaign();
+        Played x = new Played();
         x.add(0, 20, 1, 1);
         x.add(0, 40, 2, 1);
         x.endTurn();
@@ -249,7 +249,7 @@ public final class MovementTest {
     }
 
     private static void promise19Move() {
-        HexCampaign x = new HexCampaign();
+        Played x = new Played();
         x.setSource(20, 0, true);
         x.add(0, 20, 5, 3);
         x.add(0, 22, 5, 3);
@@ -265,7 +265,7 @@ public final class MovementTest {
     }
 
     private static void promise19Refusals() {
-        HexCampaign x = new HexCampaign();
+        Played x = new Played();
         x.add(0, 20, 5, 4);
         x.add(1, 22, 5, 4);
         x.add(0, 21, 5, 4);
@@ -295,7 +295,7 @@ public final class MovementTest {
 
     private static void promise19Ambush() {
         for (int goal : new int[] {23, 24, 26}) {
-            HexCampaign x = Scene.hiddenAt23("PPPPMPPPP");
+            Played x = Scene.hiddenAt23("PPPPMPPPP");
             Check.same("move(0, " + goal + ")", x.move(0, goal), 22);
             Check.same("unit(0, 1)", x.unit(0, 1), 22);
             Check.same("count(6)", x.count(6), 1);
@@ -312,12 +312,12 @@ public final class MovementTest {
 
     private static void promise19StopInZone() {
         for (int goal : new int[] {22, 23, 24, 26}) {
-            HexCampaign x = Scene.hiddenAt23("PPPPPPPPP");
+            Played x = Scene.hiddenAt23("PPPPPPPPP");
             Check.same("move(0, " + goal + ")", x.move(0, goal), 22);
             Check.same("count(6)", x.count(6), 0);
             Check.same("unit(0, 7)", x.unit(0, 7), 0);
         }
-        HexCampaign x = Scene.hiddenAt23("PPPPPPPPP");
+        Played x = Scene.hiddenAt23("PPPPPPPPP");
         x.set(true, 0);
         Check.same("move(0, 21) in the open", x.move(0, 21), 21);
         x.undo();
@@ -325,7 +325,7 @@ public final class MovementTest {
         Check.same("move(0, 22) beside a unit", x.move(0, 22), 22);
     }
 
-    private static void report(HexCampaign x, int unit, int cell, int... dues) {
+    private static void report(Played x, int unit, int cell, int... dues) {
         Check.refused("move(" + unit + ", " + cell + ")", UnsupportedOperationException.class,
                 () -> x.move(unit, cell));
         for (int i = 0; i < dues.length; i++) {
@@ -335,7 +335,7 @@ public final class MovementTest {
     }
 
     private static void promise19Reports() {
-        HexCampaign x = Scene.corridor("ppppppppp");
+        Played x = Scene.corridor("ppppppppp");
         x.setSource(18, 0, true);
         x.add(0, 18, 5, 3);
         x.add(0, 20, 8, 3);

@@ -22,6 +22,10 @@ public final class RandomRunsTest {
     private static final int[] COUNTS = new int[7];
     /** The letters that were fed to the map that is being read. */
     private static int fed = 0;
+    private static HexCampaign played;
+    private static NaiveCampaign naive;
+    /** The calls of the campaign that is played, as nothing is promised after the 512th one. */
+    private static int calls = 0;
     /** Whether the units of this run stand far from one another, on roads, in rain. */
     private static boolean isWide = false;
 
@@ -70,30 +74,31 @@ public final class RandomRunsTest {
     }
 
     private static void play(List<Method> face, int run) {
-        HexCampaign x = new HexCampaign();
-        NaiveCampaign n = new NaiveCampaign();
+        played = new HexCampaign();
+        naive = new NaiveCampaign();
+        calls = 0;
         isWide = run % 2 == 1;
         if (isWide) {
-            compare(find(face, "set"), new Object[] {true, 1}, x, n, "run " + run + ": ");
-            compare(find(face, "set"), new Object[] {false, 30}, x, n, "run " + run + ": ");
+            compare(find(face, "set"), new Object[] {true, 1}, "run " + run + ": ");
+            compare(find(face, "set"), new Object[] {false, 30}, "run " + run + ": ");
         }
         boolean isWarm = isWide || oneIn(2);
         int limit = run % 4 == 0 ? CALLS : 220;
         fed = 0;
-        for (int i = 0; i < limit; i++) {
+        for (int i = 0; i < limit && calls < CALLS - 1; i++) {
             Method m = pick(face);
-            Object[] values = isWarm && i < 110 ? null : valuesFor(m.getName(), x);
+            Object[] values = isWarm && i < 110 ? null : valuesFor(m.getName());
             if (values == null) {
                 m = find(face, i < 80 ? "setTerrain" : i < 94 ? "setSource" : "add");
-                values = valuesFor(m.getName(), x);
+                values = valuesFor(m.getName());
             }
             boolean isRare = m.getName().equals("start") || m.getName().equals("restore");
             if (isRare && !oneIn(12)) {
                 continue;
             }
-            int before = x.count(6);
-            compare(m, values, x, n, "run " + run + " call " + i + ": ");
-            COUNTS[0] += m.getName().equals("move") && x.count(6) > before ? 1 : 0;
+            int before = naive.count(6);
+            compare(m, values, "run " + run + " call " + i + ": ");
+            COUNTS[0] += m.getName().equals("move") && naive.count(6) > before ? 1 : 0;
         }
     }
 
@@ -113,11 +118,12 @@ public final class RandomRunsTest {
         return oneIn(3) ? face.get(draw(face.size())) : find(face, CHANGES[draw(CHANGES.length)]);
     }
 
-    private static void compare(Method m, Object[] values, HexCampaign x, NaiveCampaign n, String where) {
-        Object got = answer(m, x, values);
+    private static void compare(Method m, Object[] values, String where) {
+        calls++;
+        Object got = answer(m, played, values);
         Object due = null;
         try {
-            due = answer(NaiveCampaign.class.getMethod(m.getName(), m.getParameterTypes()), n, values);
+            due = answer(NaiveCampaign.class.getMethod(m.getName(), m.getParameterTypes()), naive, values);
         } catch (NoSuchMethodException e) {
             due = e;
         }
@@ -146,13 +152,13 @@ public final class RandomRunsTest {
         }
     }
 
-    private static int aUnit(HexCampaign x) {
-        return oneIn(10) ? wild(16) : draw(Math.max(1, Math.min(16, x.count(0) + 3)));
+    private static int aUnit() {
+        return oneIn(10) ? wild(16) : draw(Math.max(1, Math.min(16, naive.count(0) + 3)));
     }
 
-    private static int placeOf(HexCampaign x, int unit) {
+    private static int placeOf(int unit) {
         try {
-            return x.unit(unit, 1);
+            return naive.unit(unit, 1);
         } catch (IndexOutOfBoundsException e) {
             return draw(63);
         }
@@ -168,16 +174,14 @@ public final class RandomRunsTest {
     }
 
     private static int beside(int cell) {
-        try {
-            return new HexCampaign().neighbor(cell, draw(6));
-        } catch (RuntimeException e) {
-            return cell;
-        }
+        int found = cell >= 0 && cell < 63 ? Grid.neighbor(cell, draw(6)) : cell;
+        return found >= 0 ? found : cell;
     }
 
-    private static int goal(HexCampaign x, int unit) {
+    private static int goal(int unit) {
         try {
-            long reach = x.reach(unit);
+            calls++;
+            long reach = played.reach(unit);
             int cell = draw(63);
             for (int i = 0; i < 63 && !oneIn(25); i++) {
                 cell = (cell + 1) % 63;
@@ -195,8 +199,8 @@ public final class RandomRunsTest {
         return oneIn(30) || isWide ? wild(63) : near(20 + draw(8));
     }
 
-    private static Object[] valuesFor(String name, HexCampaign x) {
-        int unit = aUnit(x);
+    private static Object[] valuesFor(String name) {
+        int unit = aUnit();
         switch (name) {
             case "start": return new Object[] {draw(Integer.MAX_VALUE) - 1000000000};
             case "setTerrain": return new Object[] {wild(63), oneIn(isWide ? 2 : 3) ? 4 : wild(6), !oneIn(isWide ? 12 : 3)};
@@ -216,9 +220,9 @@ public final class RandomRunsTest {
             case "reach": return new Object[] {unit};
             case "cost": return new Object[] {unit, wild(63)};
             case "way": return new Object[] {unit, wild(63), oneIn(9) ? wild(63) : draw(6)};
-            case "move": return new Object[] {unit, goal(x, unit)};
+            case "move": return new Object[] {unit, goal(unit)};
             case "odds":
-            case "attack": return fightValues(name, x, unit);
+            case "attack": return fightValues(name, unit);
             case "account": return new Object[] {wild(2), wild(6)};
             case "report": return new Object[] {wild(4), wild(3)};
             case "feed": return new Object[] {letter()};
@@ -239,11 +243,11 @@ public final class RandomRunsTest {
         return oneIn(60) ? (char) draw(65536) : letters.charAt(draw(oneIn(3) ? 11 : 10));
     }
 
-    private static Object[] fightValues(String name, HexCampaign x, int unit) {
-        int from = placeOf(x, unit);
+    private static Object[] fightValues(String name, int unit) {
+        int from = placeOf(unit);
         int to = oneIn(30) ? wild(63) : beside(from);
         for (int cell = 0; cell < 63; cell++) {
-            if (x.distance(from, cell) == 1 && x.cell(cell, 3) != 0 && !oneIn(10)) {
+            if (Grid.distance(from, cell) == 1 && naive.cell(cell, 3) != 0 && !oneIn(10)) {
                 to = cell;
             }
         }

@@ -8,7 +8,7 @@ final class Scene {
     private Scene() {
     }
 
-    static String text(HexCampaign x) {
+    static String text(Played x) {
         StringBuilder all = new StringBuilder();
         for (int i = 0; i < 69; i++) {
             all.append(x.text(i));
@@ -16,28 +16,28 @@ final class Scene {
         return all.toString();
     }
 
-    static void feed(HexCampaign x, String letters) {
+    static void feed(Played x, String letters) {
         for (int i = 0; i < letters.length(); i++) {
             x.feed(letters.charAt(i));
         }
     }
 
-    static HexCampaign ofText(String map) {
-        HexCampaign x = new HexCampaign();
+    static Played ofText(String map) {
+        Played x = new Played();
         feed(x, map);
         x.readMap();
         return x;
     }
 
     /** The third row of the map, cells 18 to 26, begins as told; the rest of it is water. */
-    static HexCampaign corridor(String letters) {
+    static Played corridor(String letters) {
         String row = (letters + "~~~~~~~~~").substring(0, 9);
         return ofText("~~~~~~~~~/~~~~~~~~~/" + row + ("/~~~~~~~~~").repeat(4));
     }
 
     /** In rain, side 0 on cell 18 does not see the unit of side 1 on cell 23. */
-    static HexCampaign hiddenAt23(String letters) {
-        HexCampaign x = corridor(letters);
+    static Played hiddenAt23(String letters) {
+        Played x = corridor(letters);
         x.setSource(18, 0, true);
         x.set(true, 1);
         x.add(0, 18, 5, 12);
@@ -46,8 +46,8 @@ final class Scene {
     }
 
     /** A mountain beside the hidden unit is in no zone, so that the way of unit 0 leads into it. */
-    static HexCampaign ambushed() {
-        HexCampaign x = hiddenAt23("PPPPMPPPP");
+    static Played ambushed() {
+        Played x = hiddenAt23("PPPPMPPPP");
         x.move(0, 24);
         return x;
     }
@@ -61,7 +61,7 @@ final class Scene {
         return found;
     }
 
-    static int[] stepsFrom(HexCampaign x, int from) {
+    static int[] stepsFrom(Played x, int from) {
         int[] steps = new int[63];
         Arrays.fill(steps, -1);
         steps[from] = 0;
@@ -88,8 +88,8 @@ final class Scene {
      * A game with something of everything: in round 1, on the turn of side 1, in snow, with the
      * supply range 30, after one attack, with a moved unit, and one of four units removed.
      */
-    static HexCampaign busy() {
-        HexCampaign x = new HexCampaign();
+    static Played busy() {
+        Played x = new Played();
         x.setTerrain(0, 1, true);
         x.setTerrain(1, 5, false);
         x.set(false, 30);

@@ -20,7 +20,7 @@ public final class SightAndSupplyTest {
     }
 
     private static void promise13Zone() {
-        HexCampaign x = new HexCampaign();
+        Played x = new Played();
         Check.same("cells(0, 0) without units", x.cells(0, 0), 0L);
         x.add(0, 20, 1, 1);
         Check.same("cells(0, 0)", x.cells(0, 0), Scene.set(21, 11, 10, 19, 28, 29));
@@ -36,7 +36,7 @@ public final class SightAndSupplyTest {
     }
 
     private static void promise13Seen() {
-        HexCampaign x = new HexCampaign();
+        Played x = new Played();
         Check.same("cells(1, 1) without units", x.cells(1, 1), 0L);
         x.set(true, 1);
         x.add(1, 0, 1, 1);
@@ -48,7 +48,7 @@ public final class SightAndSupplyTest {
     }
 
     private static void promise13SourcesAndClosed() {
-        HexCampaign x = new HexCampaign();
+        Played x = new Played();
         x.setSource(3, 1, true);
         x.setSource(62, 1, true);
         Check.same("cells(1, 2)", x.cells(1, 2), Scene.set(3, 62));
@@ -65,7 +65,7 @@ public final class SightAndSupplyTest {
     }
 
     private static void promise13Supplied() {
-        HexCampaign x = Scene.corridor("ppwhsmppp");
+        Played x = Scene.corridor("ppwhsmppp");
         Check.same("cells(0, 4) without sources", x.cells(0, 4), 0L);
         x.setSource(18, 0, true);
         int[] costs = {0, 1, 3, 5, 8, 12, 13, 14, 15};
@@ -81,7 +81,7 @@ public final class SightAndSupplyTest {
     }
 
     private static void promise13Refusals() {
-        HexCampaign x = new HexCampaign();
+        Played x = new Played();
         for (int side : new int[] {-1, 2, Integer.MIN_VALUE, Integer.MAX_VALUE}) {
             Check.refused("cells(" + side + ", 9)", IndexOutOfBoundsException.class, () -> x.cells(side, 9));
         }
@@ -91,11 +91,11 @@ public final class SightAndSupplyTest {
     }
 
     private static void promise14Range() {
-        HexCampaign x = new HexCampaign();
         int[] ranges = {4, 2, 3};
         for (int weather = 0; weather < 3; weather++) {
-            x.set(true, weather);
             for (int one = 0; one < 63; one++) {
+                Played x = new Played();
+                x.set(true, weather);
                 for (int other = 0; other < 63; other++) {
                     Check.same("isSeen(" + one + ", " + other + ")", x.isSeen(one, other),
                             x.distance(one, other) <= ranges[weather]);
@@ -104,9 +104,9 @@ public final class SightAndSupplyTest {
         }
     }
 
-    private static void sight(HexCampaign x, int one, int other, boolean due) {
-        Check.same("isSeen(" + one + ", " + other + ") of " + Scene.text(x), x.isSeen(one, other), due);
-        Check.same("isSeen(" + other + ", " + one + ") of " + Scene.text(x), x.isSeen(other, one), due);
+    private static void sight(Played x, int one, int other, boolean due) {
+        Check.same("isSeen(" + one + ", " + other + ") after " + x.calls(), x.isSeen(one, other), due);
+        Check.same("isSeen(" + other + ", " + one + ") after " + x.calls(), x.isSeen(other, one), due);
     }
 
     private static void promise14Heights() {
@@ -116,7 +116,7 @@ public final class SightAndSupplyTest {
         for (int a = 0; a < 6; a++) {
             for (int b = 0; b < 6; b++) {
                 for (int c = 0; c < 6; c++) {
-                    HexCampaign x = Scene.corridor("" + letters.charAt(a) + letters.charAt(b) + letters.charAt(c));
+                    Played x = Scene.corridor("" + letters.charAt(a) + letters.charAt(b) + letters.charAt(c));
                     sight(x, 18, 20, heights[b] <= Math.max(heights[a], heights[c]));
                     sight(x, 18, 19, true);
                     sight(x, 18, 18, true);
@@ -126,7 +126,7 @@ public final class SightAndSupplyTest {
     }
 
     private static void promise14WaysAround() {
-        HexCampaign x = new HexCampaign();
+        Played x = new Played();
         x.setTerrain(19, 1, false);
         sight(x, 18, 28, true);
         x.setTerrain(27, 1, false);
@@ -147,14 +147,14 @@ public final class SightAndSupplyTest {
     }
 
     private static void promise14Refusals() {
-        HexCampaign x = new HexCampaign();
+        Played x = new Played();
         for (int cell : new int[] {-1, 63, Integer.MIN_VALUE, Integer.MAX_VALUE}) {
             Check.refused("isSeen", IndexOutOfBoundsException.class, () -> x.isSeen(cell, 0));
             Check.refused("isSeen", IndexOutOfBoundsException.class, () -> x.isSeen(0, cell));
         }
     }
 
-    private static void supplyCosts(HexCampaign x, int... dues) {
+    private static void supplyCosts(Played x, int... dues) {
         for (int i = 0; i < dues.length; i++) {
             int cell = 18 + i;
             if (dues[i] < 0) {
@@ -167,7 +167,7 @@ public final class SightAndSupplyTest {
     }
 
     private static void promise15TerrainAndWeather() {
-        HexCampaign x = Scene.corridor("mpwhsmp~p");
+        Played x = Scene.corridor("mpwhsmp~p");
         supplyCosts(x, -1, -1, -1, -1, -1, -1, -1, -1, -1);
         x.setSource(18, 0, true);
         supplyCosts(x, 0, 1, 3, 5, 8, 12, 13, -1, -1);
@@ -182,7 +182,7 @@ public final class SightAndSupplyTest {
     }
 
     private static void promise15Roads() {
-        HexCampaign x = Scene.corridor("pPWHpSMMm");
+        Played x = Scene.corridor("pPWHpSMMm");
         x.setSource(18, 0, true);
         supplyCosts(x, 0, 1, 2, 3, 4, 7, 8, 9, 13);
         x.set(true, 1);
@@ -190,7 +190,7 @@ public final class SightAndSupplyTest {
     }
 
     private static void promise15ClosedCells() {
-        HexCampaign x = Scene.corridor("ppppppppp");
+        Played x = Scene.corridor("ppppppppp");
         x.setSource(18, 0, true);
         x.add(1, 23, 1, 1);
         supplyCosts(x, 0, 1, 2, 3, -1, -1, -1, -1, -1);
@@ -212,13 +212,13 @@ public final class SightAndSupplyTest {
     }
 
     private static int costBeyondRange() {
-        HexCampaign x = Scene.corridor("psmmmmmmm");
+        Played x = Scene.corridor("psmmmmmmm");
         x.setSource(18, 0, true);
         return x.supplyCost(0, 26);
     }
 
     private static void promise15Refusals() {
-        HexCampaign x = new HexCampaign();
+        Played x = new Played();
         for (int wrong : new int[] {-1, 63, Integer.MIN_VALUE, Integer.MAX_VALUE}) {
             Check.refused("supplyCost", IndexOutOfBoundsException.class, () -> x.supplyCost(0, wrong));
             Check.refused("supplyCost", IndexOutOfBoundsException.class, () -> x.supplyCost(wrong, 0));

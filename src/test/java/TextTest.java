@@ -1,3 +1,4 @@
+import java.util.List;
 import java.util.NoSuchElementException;
 
 /** Promises 25 to 28: reports, the input buffer and the texts of maps. */
@@ -17,7 +18,7 @@ public final class TextTest {
     }
 
     private static void promise25Report() {
-        HexCampaign x = new HexCampaign();
+        Played x = new Played();
         for (int level : new int[] {0, -1, 1, Integer.MIN_VALUE, Integer.MAX_VALUE}) {
             Check.refused("report without one", NoSuchElementException.class, () -> x.report(level, 9));
         }
@@ -39,7 +40,7 @@ public final class TextTest {
     }
 
     private static void promise26Feed() {
-        HexCampaign x = new HexCampaign();
+        Played x = new Played();
         for (int i = 1; i <= 80; i++) {
             Check.same("feed " + i, x.feed((char) (i * 819)), i);
         }
@@ -51,7 +52,7 @@ public final class TextTest {
     }
 
     private static void promise27WholeMap() {
-        HexCampaign x = new HexCampaign();
+        Played x = new Played();
         Scene.feed(x, WHOLE);
         Check.same("readMap()", x.readMap(), 63);
         Check.same("text", Scene.text(x), WHOLE);
@@ -65,7 +66,7 @@ public final class TextTest {
 
     private static void promise27EndsAnywhere() {
         for (int end = 0; end <= WHOLE.length(); end++) {
-            HexCampaign x = new HexCampaign();
+            Played x = new Played();
             x.setTerrain(62, 3, true);
             x.setTerrain(0, 3, true);
             String before = Scene.text(x);
@@ -78,12 +79,12 @@ public final class TextTest {
     }
 
     private static void error(String letters, int position) {
-        HexCampaign x = new HexCampaign();
+        Played x = new Played();
         x.setTerrain(2, 3, true);
-        String before = Sight.of(x);
+        List<String> before = Sight.butInput(x);
         Scene.feed(x, letters);
         Check.same("readMap() of " + letters, x.readMap(), -100 - position);
-        Check.same("state after an error", Sight.of(x), before);
+        Check.sameSight("state after an error", Sight.butInput(x), before);
         Check.same("feed after an error", x.feed('w'), 1);
         Check.same("undo() after an error", x.undo(), 0);
     }
@@ -111,12 +112,12 @@ public final class TextTest {
     }
 
     private static void promise27WaterUnderUnits() {
-        HexCampaign x = new HexCampaign();
+        Played x = new Played();
         x.add(1, 3, 1, 1);
         Scene.feed(x, "www~ww");
-        String before = Sight.of(x);
+        List<String> before = Sight.butInput(x);
         Check.refused("readMap()", IllegalStateException.class, x::readMap);
-        Check.same("state after it", Sight.of(x), before);
+        Check.sameSight("state after it", Sight.butInput(x), before);
         Check.same("feed after it", x.feed('h'), 1);
         Check.same("readMap()", x.readMap(), 1);
         Scene.feed(x, "www~x");
@@ -129,7 +130,7 @@ public final class TextTest {
     }
 
     private static void promise27WaterUnderTheFirstAndTheLast() {
-        HexCampaign x = new HexCampaign();
+        Played x = new Played();
         x.add(1, 0, 1, 1);
         x.feed('~');
         Check.refused("water on 0", IllegalStateException.class, x::readMap);
@@ -143,7 +144,7 @@ public final class TextTest {
     }
 
     private static void promise28Text() {
-        HexCampaign x = new HexCampaign();
+        Played x = new Played();
         Check.same("text", Scene.text(x), "ppppppppp/".repeat(7).substring(0, 69));
         String letters = "pwhsm~";
         for (int terrain = 0; terrain < 6; terrain++) {

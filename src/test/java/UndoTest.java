@@ -1,3 +1,6 @@
+import java.util.ArrayList;
+import java.util.List;
+
 /** Promises 29 to 31: undo, save and restore. */
 public final class UndoTest {
     public static void main(String[] args) {
@@ -14,15 +17,15 @@ public final class UndoTest {
         Check.end();
     }
 
-    private static void takenBack(String what, HexCampaign x, Runnable change) {
-        String before = Sight.of(x);
+    private static void takenBack(String what, Played x, Runnable change) {
+        List<String> before = Sight.game(x);
         change.run();
         x.undo();
-        Check.same("state after undo of " + what, Sight.of(x), before);
+        Check.sameSight("state after undo of " + what, Sight.game(x), before);
     }
 
     private static void promise29EachChange() {
-        HexCampaign x = Scene.busy();
+        Played x = Scene.busy();
         x.add(0, 23, 3, 3);
         takenBack("setTerrain", x, () -> x.setTerrain(30, 4, true));
         takenBack("setSource", x, () -> x.setSource(30, 0, true));
@@ -42,13 +45,13 @@ public final class UndoTest {
     }
 
     private static void promise29LossesAndAmbushes() {
-        HexCampaign x = new HexCampaign();
+        Played x = new Played();
         x.add(0, 20, 1, 3);
         takenBack("endTurn that removes a unit", x, () -> {
             Check.same("endTurn()", x.endTurn(), 1);
             Check.same("account(0, 5)", x.account(0, 5), 1);
         });
-        HexCampaign y = Scene.hiddenAt23("PPPPMPPPP");
+        Played y = Scene.hiddenAt23("PPPPMPPPP");
         takenBack("move into an ambush", y, () -> {
             y.move(0, 24);
             Check.same("count(6)", y.count(6), 1);
@@ -56,15 +59,15 @@ public final class UndoTest {
     }
 
     private static void promise29Order() {
-        HexCampaign x = new HexCampaign();
-        String[] states = new String[7];
+        Played x = new Played();
+        List<List<String>> states = new ArrayList<>();
         for (int i = 0; i < 7; i++) {
-            states[i] = Sight.of(x);
+            states.add(Sight.game(x));
             x.add(i % 2, 9 * i, 1 + i, 1);
         }
         for (int i = 6; i >= 0; i--) {
             Check.same("undo()", x.undo(), i);
-            Check.same("state " + i, Sight.of(x), states[i]);
+            Check.sameSight("state " + i, Sight.game(x), states.get(i));
         }
         Check.refusedUnchanged(x, "undo()", IllegalStateException.class, x::undo);
         x.set(true, 1);
@@ -78,7 +81,7 @@ public final class UndoTest {
     }
 
     private static void promise29MostChanges() {
-        HexCampaign x = new HexCampaign();
+        Played x = new Played();
         for (int value = 11; value <= 30; value++) {
             x.set(false, value);
         }
@@ -93,7 +96,7 @@ public final class UndoTest {
     }
 
     private static void promise29NotWhatIsNoChange() {
-        HexCampaign x = new HexCampaign();
+        Played x = new Played();
         Check.refused("undo()", IllegalStateException.class, x::undo);
         x.set(true, 0);
         x.save();
@@ -111,7 +114,7 @@ public final class UndoTest {
     }
 
     private static void promise29WeatherAndNumbers() {
-        HexCampaign x = new HexCampaign();
+        Played x = new Played();
         x.start(1);
         StringBuilder weathers = new StringBuilder();
         for (int round = 0; round < 12; round++) {
@@ -128,7 +131,7 @@ public final class UndoTest {
     }
 
     private static void promise30And31SaveAndRestore() {
-        HexCampaign x = Scene.busy();
+        Played x = Scene.busy();
         x.start(1);
         x.setSource(5, 0, true);
         x.add(0, 20, 3, 3);
@@ -136,16 +139,16 @@ public final class UndoTest {
         x.add(0, 23, 4, 1);
         x.move(0, 21);
         x.attack(23, 24);
-        String before = Sight.of(x);
+        List<String> before = Sight.game(x);
         Check.same("save()", x.save(), 3);
-        Check.same("state after save", Sight.of(x), before);
+        Check.sameSight("state after save", Sight.game(x), before);
         Check.same("undo() after save", x.undo(), 5);
         x.endTurn();
         x.endTurn();
         x.add(0, 40, 1, 1);
         for (int i = 0; i < 2; i++) {
             Check.same("restore()", x.restore(), 3);
-            Check.same("state after restore", Sight.of(x), before);
+            Check.sameSight("state after restore", Sight.game(x), before);
             Check.refused("undo() after restore", IllegalStateException.class, x::undo);
             Check.same("the next number", x.add(1, 0, 1, 1), 3);
             Check.same("undo()", x.undo(), 0);
@@ -166,19 +169,19 @@ public final class UndoTest {
     }
 
     private static void promise31RestoresOtherUnits() {
-        HexCampaign x = new HexCampaign();
+        Played x = new Played();
         x.add(1, 20, 3, 3);
-        String before = Sight.of(x);
+        List<String> before = Sight.game(x);
         x.save();
         x.start(0);
         x.add(0, 21, 4, 12);
         x.add(1, 22, 2, 12);
         Check.same("restore()", x.restore(), 1);
-        Check.same("state after restore", Sight.of(x), before);
+        Check.sameSight("state after restore", Sight.game(x), before);
     }
 
     private static void promise31NothingSaved() {
-        HexCampaign x = new HexCampaign();
+        Played x = new Played();
         x.set(true, 1);
         Check.refusedUnchanged(x, "restore()", IllegalStateException.class, x::restore);
         Check.same("undo() after it", x.undo(), 0);
@@ -187,12 +190,12 @@ public final class UndoTest {
     }
 
     private static void promise31KeepsReportAndInput() {
-        HexCampaign x = new HexCampaign();
+        Played x = new Played();
         x.save();
         x.add(0, 20, 1, 1);
         Check.refused("move(0, 22)", UnsupportedOperationException.class, () -> x.move(0, 22));
         x.feed('s');
-        String report = Sight.report(x);
+        List<String> report = Sight.report(x);
         x.restore();
         Check.same("report after restore", Sight.report(x), report);
         Check.same("feed after restore", x.feed('s'), 2);

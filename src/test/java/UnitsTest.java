@@ -14,7 +14,7 @@ public final class UnitsTest {
     }
 
     private static void promise10Add() {
-        HexCampaign x = new HexCampaign();
+        Played x = new Played();
         Check.same("add(1, 0, 1, 12)", x.add(1, 0, 1, 12), 0);
         Check.same("add(0, 62, 9, 1)", x.add(0, 62, 9, 1), 1);
         int[] dues = {1, 0, 1, 12};
@@ -26,7 +26,7 @@ public final class UnitsTest {
     }
 
     private static void promise10Room() {
-        HexCampaign x = new HexCampaign();
+        Played x = new Played();
         x.add(0, 20, 9, 1);
         Check.refusedUnchanged(x, "13 on a cell", IllegalStateException.class, () -> x.add(0, 20, 4, 1));
         Check.same("12 on a cell", x.add(0, 20, 3, 1), 1);
@@ -43,7 +43,7 @@ public final class UnitsTest {
     }
 
     private static void promise10SixteenUnits() {
-        HexCampaign x = new HexCampaign();
+        Played x = new Played();
         for (int unit = 0; unit < 15; unit++) {
             Check.same("add " + unit, x.add(0, 2 * unit, 1, 1), unit);
         }
@@ -57,7 +57,7 @@ public final class UnitsTest {
     }
 
     private static void promise10Refusals() {
-        HexCampaign x = new HexCampaign();
+        Played x = new Played();
         int[][] outside = {{2, 0, 10, 1}, {-1, 0, 1, 1}, {0, 63, 1, 13}, {0, -1, 1, 1},
             {Integer.MAX_VALUE, 0, 1, 1}, {0, Integer.MIN_VALUE, 1, 1}};
         for (int[] a : outside) {
@@ -74,14 +74,14 @@ public final class UnitsTest {
         Check.same("undo() after refusals", x.undo(), 0);
     }
 
-    private static void numbers(HexCampaign x, int unit, int... dues) {
+    private static void numbers(Played x, int unit, int... dues) {
         for (int what = 0; what < dues.length; what++) {
             Check.same("unit(" + unit + ", " + what + ")", x.unit(unit, what), dues[what]);
         }
     }
 
     private static void promise11Numbers() {
-        HexCampaign x = new HexCampaign();
+        Played x = new Played();
         x.setSource(18, 0, true);
         x.add(0, 20, 5, 7);
         x.add(1, 24, 5, 7);
@@ -97,7 +97,7 @@ public final class UnitsTest {
     }
 
     private static void promise11Halves() {
-        HexCampaign x = new HexCampaign();
+        Played x = new Played();
         for (int strength = 1; strength <= 9; strength++) {
             int unit = x.add(0, 6 * strength, strength, strength + 3);
             Check.same("half of " + strength, x.unit(unit, 5), new int[] {0, 1, 1, 2, 2, 3, 3, 4, 4, 5}[strength]);
@@ -107,7 +107,7 @@ public final class UnitsTest {
     }
 
     private static void promise11Turns() {
-        HexCampaign x = new HexCampaign();
+        Played x = new Played();
         x.setSource(18, 0, true);
         x.setSource(26, 1, true);
         x.add(0, 19, 5, 5);
@@ -133,13 +133,13 @@ public final class UnitsTest {
         canMoveAndAttack(x, 2, 0, 0);
     }
 
-    private static void canMoveAndAttack(HexCampaign x, int unit, int canMove, int canAttack) {
+    private static void canMoveAndAttack(Played x, int unit, int canMove, int canAttack) {
         Check.same("unit(" + unit + ", 7)", x.unit(unit, 7), canMove);
         Check.same("unit(" + unit + ", 8)", x.unit(unit, 8), canAttack);
     }
 
     private static void promise11Refusals() {
-        HexCampaign x = new HexCampaign();
+        Played x = new Played();
         x.add(0, 20, 1, 1);
         x.add(0, 40, 2, 1);
         x.endTurn();
@@ -153,7 +153,7 @@ public final class UnitsTest {
     }
 
     private static void promise12Known() {
-        HexCampaign x = new HexCampaign();
+        Played x = new Played();
         Check.same("known(0) without units", x.known(0), 0);
         x.add(0, 18, 1, 1);
         x.add(1, 22, 1, 1);

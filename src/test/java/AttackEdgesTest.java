@@ -41,35 +41,6 @@ public final class AttackEdgesTest {
         Check.end();
     }
 
-    /** Units of side 0 on 20 and of side 1 on 21, with supply, each with the sum of strengths. */
-    private static Played facing(int strength, int other) {
-        Played x = new Played();
-        x.setSource(20, 0, true);
-        x.setSource(21, 1, true);
-        stack(x, 0, 20, strength);
-        stack(x, 1, 21, other);
-        return x;
-    }
-
-    /** Two units where one has not strength enough. */
-    private static void stack(Played x, int side, int cell, int strength) {
-        x.add(side, cell, Math.min(9, strength), 5);
-        if (strength > 9) {
-            x.add(side, cell, strength - 9, 5);
-        }
-    }
-
-    private static void strengths(Played x, int... dues) {
-        for (int unit = 0; unit < dues.length; unit++) {
-            int u = unit;
-            if (dues[unit] == 0) {
-                Check.refused("unit(" + unit + ", 2)", IndexOutOfBoundsException.class, () -> x.unit(u, 2));
-            } else {
-                Check.same("unit(" + unit + ", 2)", x.unit(unit, 2), dues[unit]);
-            }
-        }
-    }
-
     private static int resultOf(int attack, int defense) {
         return attack >= 2 * defense ? 2 : attack > defense ? 1 : 0;
     }
@@ -78,7 +49,7 @@ public final class AttackEdgesTest {
     private static void twiceTheDefense() {
         for (int strength = 1; strength <= 12; strength++) {
             for (int other = 1; other <= 12; other++) {
-                Played x = facing(strength, other);
+                Played x = Scene.facing(strength, other);
                 String what = " of " + strength + " on " + other;
                 Check.same("odds" + what, x.odds(20, 21, false), strength);
                 Check.same("odds of the defense" + what, x.odds(20, 21, true), other);
@@ -92,7 +63,7 @@ public final class AttackEdgesTest {
         int[] bonuses = {0, 1, 2, 0, 3};
         for (int terrain = 0; terrain <= 4; terrain++) {
             for (int strength = 1; strength <= 12; strength++) {
-                Played x = facing(strength, 2);
+                Played x = Scene.facing(strength, 2);
                 x.setTerrain(20, 4 - terrain, false);
                 x.setTerrain(21, terrain, false);
                 int defense = 2 + bonuses[terrain];
@@ -108,7 +79,7 @@ public final class AttackEdgesTest {
     private static void bonusForSeveralUnits() {
         int[] bonuses = {0, 1, 2, 0, 3};
         for (int terrain = 0; terrain <= 4; terrain++) {
-            Played x = facing(12, 1);
+            Played x = Scene.facing(12, 1);
             x.add(1, 21, 2, 1);
             x.add(1, 21, 3, 1);
             x.setTerrain(21, terrain, true);
@@ -120,7 +91,7 @@ public final class AttackEdgesTest {
     /** "Minus 1 with rain", once for all units, and not for the defense. */
     private static void minusOneWithRain() {
         for (int strength = 1; strength <= 12; strength++) {
-            Played x = facing(strength, 3);
+            Played x = Scene.facing(strength, 3);
             x.set(true, 2);
             Check.same("odds with snow", x.odds(20, 21, false), strength);
             x.set(true, 1);
@@ -132,12 +103,12 @@ public final class AttackEdgesTest {
 
     /** An attack of 0 is no success, whatever is attacked. */
     private static void attackOfNothing() {
-        Played x = facing(1, 1);
+        Played x = Scene.facing(1, 1);
         x.set(true, 1);
         Check.same("odds(20, 21, false)", x.odds(20, 21, false), 0);
         Check.same("odds(20, 21, true)", x.odds(20, 21, true), 1);
         Check.same("attack(20, 21)", x.attack(20, 21), 0);
-        strengths(x, 0, 1);
+        Check.strengths(x, 0, 1);
         Check.same("count(0)", x.count(0), 1);
         Check.same("count(7)", x.count(7), 1);
     }
@@ -156,20 +127,21 @@ public final class AttackEdgesTest {
 
     /** "The units of a side on a cell that have not attacked in this turn of the side". */
     private static void unitsThatHaveNotAttacked() {
-        Played x = facing(2, 9);
+        Played x = Scene.facing(2, 9);
         x.attack(20, 21);
         x.add(0, 20, 9, 5);
         Check.same("odds of the new one", x.odds(20, 21, false), 9);
         Check.same("attack of 9 on 9", x.attack(20, 21), 0);
-        strengths(x, 1, 9, 8);
+        Check.strengths(x, 1, 9, 8);
         Check.refusedUnchanged(x, "a third attack", NoSuchElementException.class, () -> x.attack(20, 21));
         x.endTurn();
         x.endTurn();
         Check.same("odds in the next round", x.odds(20, 21, false) + (x.count(3) == 1 ? 1 : 0), 9);
     }
 
+    /** "In a turn, each unit of the side can [..] attack once", on whatever cell. */
     private static void notTwiceOnTwoCells() {
-        Played x = facing(9, 9);
+        Played x = Scene.facing(9, 9);
         x.add(1, 19, 9, 5);
         x.attack(20, 21);
         Check.refusedUnchanged(x, "an attack on another cell", NoSuchElementException.class,
@@ -191,7 +163,7 @@ public final class AttackEdgesTest {
 
     /** "If there is no unit that could attack": none at all, or of the side whose turn it is not. */
     private static void noUnitsThatCouldAttack() {
-        Played x = facing(5, 5);
+        Played x = Scene.facing(5, 5);
         none(x, 22, 21);
         none(x, 21, 20);
         none(x, 11, 12);
@@ -202,7 +174,7 @@ public final class AttackEdgesTest {
 
     /** "Or none that could be attacked": no unit, or one of its own side. */
     private static void noUnitsThatCouldBeAttacked() {
-        Played x = facing(5, 1);
+        Played x = Scene.facing(5, 1);
         x.add(0, 19, 1, 1);
         none(x, 20, 11);
         none(x, 20, 19);
@@ -213,7 +185,7 @@ public final class AttackEdgesTest {
 
     /** "If they are no neighbors": the cell itself, two steps, and around the edge of the map. */
     private static void neighborsAlone() {
-        Played x = facing(5, 5);
+        Played x = Scene.facing(5, 5);
         x.add(0, 8, 5, 1);
         x.add(1, 9, 5, 1);
         int[][] pairs = {{20, 20}, {20, 22}, {20, 12}, {21, 19}, {8, 9}, {9, 8}, {0, 62}, {20, 30}};
@@ -227,8 +199,9 @@ public final class AttackEdgesTest {
         }
     }
 
+    /** "It cannot move after it has attacked": the other way round it can. */
     private static void unitsThatHaveMoved() {
-        Played x = facing(5, 1);
+        Played x = Scene.facing(5, 1);
         x.add(0, 18, 5, 4);
         Check.same("move(2, 20)", x.move(2, 20), 20);
         Check.same("odds of both", x.odds(20, 21, false), 10);
@@ -237,7 +210,7 @@ public final class AttackEdgesTest {
 
     /** "The attacks so far": each attack, no refused one, no odds, none that was taken back. */
     private static void attacksAreCounted() {
-        Played x = facing(5, 9);
+        Played x = Scene.facing(5, 9);
         Check.same("count(7) at first", x.count(7), 0);
         x.odds(20, 21, false);
         Check.refused("attack(20, 19)", NoSuchElementException.class, () -> x.attack(20, 19));
@@ -253,11 +226,11 @@ public final class AttackEdgesTest {
 
     /** "Otherwise the result is 0: each attacking unit loses 1." */
     private static void lossesOfAllAttackers() {
-        Played x = facing(2, 9);
+        Played x = Scene.facing(2, 9);
         x.add(0, 20, 1, 5);
         x.add(0, 20, 3, 5);
         Check.same("attack of 6 on 9", x.attack(20, 21), 0);
-        strengths(x, 1, 9, 0, 2);
+        Check.strengths(x, 1, 9, 0, 2);
         Check.same("account(0, 2)", x.account(0, 2), 3);
         Check.same("account(0, 5)", x.account(0, 5), 1);
         Check.same("account(1, 2)", x.account(1, 2), 0);
@@ -265,24 +238,24 @@ public final class AttackEdgesTest {
 
     /** "Of the units that attack, the one with the lowest number", not one that has attacked before. */
     private static void lossesOfTheLowestNumbers() {
-        Played x = facing(2, 5);
+        Played x = Scene.facing(2, 5);
         x.add(1, 21, 1, 5);
         x.attack(20, 21);
         x.add(0, 20, 4, 5);
         x.add(0, 20, 3, 5);
         Check.same("attack of 7 on 6", x.attack(20, 21), 1);
-        strengths(x, 1, 4, 1, 3, 3);
+        Check.strengths(x, 1, 4, 1, 3, 3);
         Check.same("account(0, 2)", x.account(0, 2), 2);
         Check.same("account(1, 2)", x.account(1, 2), 1);
     }
 
     /** "Each attacked unit loses 1 of its strength, and those that remain retreat." */
     private static void lossesOfAllThatAreAttacked() {
-        Played x = facing(10, 1);
+        Played x = Scene.facing(10, 1);
         x.add(1, 21, 3, 5);
         x.add(1, 21, 1, 5);
         Check.same("attack of 10 on 5", x.attack(20, 21), 2);
-        strengths(x, 9, 1, 0, 2, 0);
+        Check.strengths(x, 9, 1, 0, 2, 0);
         Check.same("unit(3, 1)", x.unit(3, 1), 12);
         Check.same("cell(21, 3)", x.cell(21, 3), 0);
         Check.same("account(1, 2)", x.account(1, 2), 3);
@@ -295,12 +268,12 @@ public final class AttackEdgesTest {
         int[] left = {0, 0, 0, 0, 1, 2, 3};
         int[] lost = {0, 1, 2, 3, 3, 3, 3};
         for (int strength = 1; strength <= 6; strength++) {
-            Played x = facing(12, strength);
+            Played x = Scene.facing(12, strength);
             for (int cell : new int[] {12, 22, 30}) {
                 x.setTerrain(cell, 5, false);
             }
             Check.same("attack on " + strength, x.attack(20, 21), 2);
-            strengths(x, 9, 3, left[strength]);
+            Check.strengths(x, 9, 3, left[strength]);
             Check.same("account(1, 2) of " + strength, x.account(1, 2), lost[strength]);
             Check.same("account(1, 5) of " + strength, x.account(1, 5), left[strength] == 0 ? 1 : 0);
             Check.same("account(1, 4) of " + strength, x.account(1, 4), left[strength] == 0 ? 0 : 1);
@@ -308,50 +281,44 @@ public final class AttackEdgesTest {
         }
     }
 
+    /** "Otherwise the result is 0: each attacking unit loses 1", also its last one. */
     private static void lastStrengthOfAnAttacker() {
-        Played x = facing(1, 1);
+        Played x = Scene.facing(1, 1);
         Check.same("attack of 1 on 1", x.attack(20, 21), 0);
-        strengths(x, 0, 1);
+        Check.strengths(x, 0, 1);
         Check.same("account(0, 5)", x.account(0, 5), 1);
         Check.same("cell(20, 3)", x.cell(20, 3), 0);
-        Played y = facing(2, 2);
+        Played y = Scene.facing(2, 2);
         Check.same("attack of 2 on 2", y.attack(20, 21), 0);
-        strengths(y, 1, 2);
+        Check.strengths(y, 1, 2);
     }
 
+    /** "The one with the lowest number, lose 1 each", also their last one. */
     private static void lastStrengthOfTheLowest() {
-        Played x = facing(1, 1);
+        Played x = Scene.facing(1, 1);
         x.add(0, 20, 4, 5);
         x.add(1, 21, 2, 5);
         Check.same("attack of 5 on 3", x.attack(20, 21), 1);
-        strengths(x, 0, 0, 4, 2);
+        Check.strengths(x, 0, 0, 4, 2);
         Check.same("account(0, 5)", x.account(0, 5), 1);
         Check.same("account(1, 5)", x.account(1, 5), 1);
         Check.same("the others stay", x.cell(20, 3) | x.cell(21, 3), 0b1100);
     }
 
-    /** The cell to which the unit of side 1 on 21 retreats before 9 on 20. */
-    private static int refuge(Played x) {
-        Check.same("attack(20, 21)", x.attack(20, 21), 2);
-        int found = x.unit(1, 1);
-        x.undo();
-        return found;
-    }
-
     /** "To that with the greatest distance from the cell of the attackers". */
     private static void retreatToTheGreatestDistance() {
-        Played x = facing(9, 2);
+        Played x = Scene.facing(9, 2);
         x.setTerrain(11, 4, true);
         x.setTerrain(21, 0, true);
         for (int cell : new int[] {12, 22, 30}) {
             x.setTerrain(cell, 4, false);
         }
-        Check.same("a distance of 2 with the cost 4", refuge(x), 12);
+        Check.same("a distance of 2 with the cost 4", Scene.refuge(x), 12);
         x.setTerrain(12, 5, false);
         x.setTerrain(22, 5, false);
-        Check.same("the last one with a distance of 2", refuge(x), 30);
+        Check.same("the last one with a distance of 2", Scene.refuge(x), 30);
         x.setTerrain(30, 5, false);
-        Check.same("a mountain beside the attackers", refuge(x), 11);
+        Check.same("a mountain beside the attackers", Scene.refuge(x), 11);
     }
 
     /** "Then the least cost of the step", by terrain, weather and road. */
@@ -360,18 +327,18 @@ public final class AttackEdgesTest {
         for (int weather = 0; weather <= 2; weather += 2) {
             for (int one = 0; one <= 4; one++) {
                 for (int other = 0; other <= 4; other++) {
-                    Played x = facing(9, 2);
+                    Played x = Scene.facing(9, 2);
                     x.set(true, weather);
                     x.setTerrain(12, one, true);
                     x.setTerrain(22, 5, false);
                     x.setTerrain(30, other, false);
-                    Check.same("refuge of " + one + " and " + other, refuge(x),
+                    Check.same("refuge of " + one + " and " + other, Scene.refuge(x),
                             costs[weather][other] < costs[weather][one] ? 30 : 12);
                     x.setTerrain(30, other, true);
                     x.setTerrain(21, 0, true);
-                    Check.same("refuge by roads", refuge(x), 12);
+                    Check.same("refuge by roads", Scene.refuge(x), 12);
                     x.setTerrain(12, one, false);
-                    Check.same("refuge by a road", refuge(x), costs[weather][one] > 1 ? 30 : 12);
+                    Check.same("refuge by a road", Scene.refuge(x), costs[weather][one] > 1 ? 30 : 12);
                 }
             }
         }
@@ -379,96 +346,99 @@ public final class AttackEdgesTest {
 
     /** "Then the lowest number". */
     private static void retreatByTheLowestNumber() {
-        Played x = facing(9, 2);
-        Check.same("of 12, 22 and 30", refuge(x), 12);
+        Played x = Scene.facing(9, 2);
+        Check.same("of 12, 22 and 30", Scene.refuge(x), 12);
         x.setTerrain(12, 1, false);
-        Check.same("of 22 and 30", refuge(x), 22);
+        Check.same("of 22 and 30", Scene.refuge(x), 22);
         x.setTerrain(22, 2, false);
         x.setTerrain(30, 1, false);
-        Check.same("of 12, 22 and 30 with the cost 2", refuge(x), 12);
+        Check.same("of 12, 22 and 30 with the cost 2", Scene.refuge(x), 12);
     }
 
+    /** "A unit retreats to a neighbor of its cell that is not water". */
     private static void noRetreatToWater() {
-        Played x = facing(9, 4);
+        Played x = Scene.facing(9, 4);
         for (int cell : new int[] {12, 22}) {
             x.setTerrain(cell, 5, false);
-            Check.same("no retreat to " + cell, refuge(x), cell == 12 ? 22 : 30);
+            Check.same("no retreat to " + cell, Scene.refuge(x), cell == 12 ? 22 : 30);
         }
         x.setTerrain(30, 5, false);
-        Check.same("no retreat", refuge(x), 21);
+        Check.same("no retreat", Scene.refuge(x), 21);
     }
 
     /** "Is not in the zone of the other side, by all its units", not only of those that attack. */
     private static void noRetreatIntoTheZone() {
-        Played x = facing(9, 4);
+        Played x = Scene.facing(9, 4);
         x.add(0, 13, 1, 1);
-        Check.same("12 and 22 are in the zone", refuge(x), 30);
+        Check.same("12 and 22 are in the zone", Scene.refuge(x), 30);
         x.add(0, 39, 1, 1);
-        Check.same("30 is, too", refuge(x), 21);
+        Check.same("30 is, too", Scene.refuge(x), 21);
         x.setTerrain(22, 4, false);
-        Check.same("a mountain is not", refuge(x), 22);
+        Check.same("a mountain is not", Scene.refuge(x), 22);
     }
 
     /** "By all its units": one that the retreating side does not see, too. */
     private static void noRetreatIntoAHiddenZone() {
-        Played x = facing(9, 4);
+        Played x = Scene.facing(9, 4);
         x.setTerrain(12, 5, false);
         x.setTerrain(30, 5, false);
         x.setTerrain(22, 1, false);
-        Check.same("a wood in no zone", refuge(x), 22);
+        Check.same("a wood in no zone", Scene.refuge(x), 22);
         x.add(0, 23, 1, 1);
         Check.same("known(1)", x.known(1), 0b1);
-        Check.same("a wood beside a hidden unit", refuge(x), 21);
+        Check.same("a wood beside a hidden unit", Scene.refuge(x), 21);
     }
 
     /** "Or has a unit of its own side on it". */
     private static void retreatIntoTheZoneToItsOwn() {
-        Played x = facing(9, 4);
+        Played x = Scene.facing(9, 4);
         for (int cell : new int[] {12, 22, 30}) {
             x.setTerrain(cell, 5, false);
         }
-        Check.same("no retreat beside the attackers", refuge(x), 21);
+        Check.same("no retreat beside the attackers", Scene.refuge(x), 21);
         x.add(1, 29, 1, 1);
-        Check.same("a unit beside the attackers", refuge(x), 29);
+        Check.same("a unit beside the attackers", Scene.refuge(x), 29);
         x.add(1, 11, 1, 1);
-        Check.same("two units beside the attackers", refuge(x), 11);
+        Check.same("two units beside the attackers", Scene.refuge(x), 11);
         x.setTerrain(12, 0, false);
-        Check.same("a cell farther off", refuge(x), 12);
+        Check.same("a cell farther off", Scene.refuge(x), 12);
     }
 
+    /** "Has room for it": there is none with units of the other side, even on a mountain. */
     private static void noRetreatToTheOtherSide() {
-        Played x = facing(9, 4);
+        Played x = Scene.facing(9, 4);
         x.add(0, 12, 1, 1);
         x.setTerrain(12, 4, false);
         x.setTerrain(22, 4, false);
         x.setTerrain(30, 5, false);
-        Check.same("no room with the other side", refuge(x), 22);
+        Check.same("no room with the other side", Scene.refuge(x), 22);
         x.setTerrain(22, 5, false);
-        Check.same("no retreat", refuge(x), 21);
+        Check.same("no retreat", Scene.refuge(x), 21);
     }
 
     /** "Has room for it": by the strength that it has after its loss. */
     private static void retreatWithRoomForTwelve() {
-        Played x = facing(9, 4);
+        Played x = Scene.facing(9, 4);
         x.setTerrain(22, 5, false);
         x.setTerrain(30, 5, false);
         x.add(1, 12, 9, 1);
-        Check.same("12 with the strength of 3", refuge(x), 12);
+        Check.same("12 with the strength of 3", Scene.refuge(x), 12);
         x.undo();
         x.add(1, 12, 8, 1);
         x.add(1, 12, 2, 1);
-        Check.same("13 with the strength of 3", refuge(x), 21);
+        Check.same("13 with the strength of 3", Scene.refuge(x), 21);
         x.undo();
         x.add(1, 12, 1, 1);
-        Check.same("12 with two others", refuge(x), 12);
+        Check.same("12 with two others", Scene.refuge(x), 12);
     }
 
+    /** "Has room for it": with two other units, not with three. */
     private static void retreatWithRoomForThree() {
-        Played x = facing(9, 2);
+        Played x = Scene.facing(9, 2);
         x.setTerrain(22, 5, false);
         x.setTerrain(30, 2, false);
         for (int others = 0; others <= 3; others++) {
-            Check.same("refuge with " + others + " others", refuge(x), others < 3 ? 12 : 30);
+            Check.same("refuge with " + others + " others", Scene.refuge(x), others < 3 ? 12 : 30);
             if (others < 3) {
                 x.add(1, 12, 1, 1);
             }
@@ -477,7 +447,7 @@ public final class AttackEdgesTest {
 
     /** "In ascending order of units, each one by the units that there are then and where they are". */
     private static void retreatsInAscendingOrder() {
-        Played x = facing(12, 2);
+        Played x = Scene.facing(12, 2);
         x.add(1, 21, 2, 1);
         x.add(1, 21, 2, 1);
         x.add(1, 12, 1, 1);
@@ -486,7 +456,7 @@ public final class AttackEdgesTest {
         Check.same("the first one takes the room", x.unit(2, 1), 12);
         Check.same("the second one goes on", x.unit(3, 1), 22);
         Check.same("the third one goes on", x.unit(4, 1), 22);
-        Played y = facing(12, 3);
+        Played y = Scene.facing(12, 3);
         y.add(1, 21, 2, 1);
         y.add(1, 21, 1, 1);
         y.add(1, 12, 9, 1);
@@ -496,7 +466,7 @@ public final class AttackEdgesTest {
         Check.same("a strength of 2 beside 9", y.unit(2, 1), 12);
         Check.same("a strength of 1 fills it", y.unit(3, 1), 12);
         Check.same("a strength of 12", y.cell(12, 4), 12);
-        strengths(y, 9, 3, 2, 1, 0, 9);
+        Check.strengths(y, 9, 3, 2, 1, 0, 9);
     }
 
     /** In the corner all other neighbors are beside the attackers on 1, and on 52. */
@@ -506,7 +476,7 @@ public final class AttackEdgesTest {
             x.add(0, corner[0], 9, 1);
             x.add(1, corner[1], 4, 1);
             Check.same("attack on the corner", x.attack(corner[0], corner[1]), 2);
-            strengths(x, 9, 1);
+            Check.strengths(x, 9, 1);
             Check.same("it stays", x.unit(1, 1), corner[1]);
         }
         Played x = new Played();
@@ -518,7 +488,7 @@ public final class AttackEdgesTest {
 
     /** On the turn of side 1 it attacks, and side 0 retreats. */
     private static void retreatsOfSideZero() {
-        Played x = facing(2, 9);
+        Played x = Scene.facing(2, 9);
         x.endTurn();
         Check.same("odds(21, 20, false)", x.odds(21, 20, false), 9);
         Check.same("odds(21, 20, true)", x.odds(21, 20, true), 2);
@@ -529,7 +499,7 @@ public final class AttackEdgesTest {
 
     /** "Attack once" in a turn of its own side: being attacked is none. */
     private static void whoWasAttackedCanAttack() {
-        Played x = facing(9, 9);
+        Played x = Scene.facing(9, 9);
         x.attack(20, 21);
         x.endTurn();
         Check.same("unit(1, 7)", x.unit(1, 7), 1);
@@ -537,8 +507,9 @@ public final class AttackEdgesTest {
         Check.same("attack(21, 20) of 9 on 8", x.attack(21, 20), 1);
     }
 
+    /** "What: 0 [..]; 5 the units that were removed"; all are 0 at first. */
     private static void whatOfAnAccount() {
-        Played x = facing(5, 5);
+        Played x = Scene.facing(5, 5);
         for (int what : new int[] {-1, 6, Integer.MIN_VALUE, Integer.MAX_VALUE}) {
             for (int side = 0; side <= 1; side++) {
                 int s = side;
@@ -561,7 +532,7 @@ public final class AttackEdgesTest {
 
     /** What was added is what is left and what was lost, in attacks and for lack of supply. */
     private static void accountsOfLosses() {
-        Played x = facing(1, 1);
+        Played x = Scene.facing(1, 1);
         x.add(0, 40, 2, 1);
         accounts(x, 0, 3, 3, 0, 0, 2, 0);
         accounts(x, 1, 1, 1, 0, 0, 1, 0);

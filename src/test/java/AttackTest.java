@@ -23,23 +23,13 @@ public final class AttackTest {
         Check.end();
     }
 
-    /** Both sides are supplied where their units of these strengths stand, on 20 and on 21. */
-    private static Played facing(int strength, int other) {
-        Played x = new Played();
-        x.setSource(20, 0, true);
-        x.setSource(21, 1, true);
-        x.add(0, 20, strength, 5);
-        x.add(1, 21, other, 5);
-        return x;
-    }
-
     private static void odds(Played x, int attack, int defense) {
         Check.same("odds(20, 21, false)", x.odds(20, 21, false), attack);
         Check.same("odds(20, 21, true)", x.odds(20, 21, true), defense);
     }
 
     private static void promise20Odds() {
-        Played x = facing(5, 3);
+        Played x = Scene.facing(5, 3);
         odds(x, 5, 3);
         x.add(0, 20, 4, 1);
         x.add(0, 20, 3, 1);
@@ -65,7 +55,7 @@ public final class AttackTest {
     }
 
     private static void promise20WhoAttacks() {
-        Played x = facing(5, 9);
+        Played x = Scene.facing(5, 9);
         x.attack(20, 21);
         x.add(0, 20, 2, 5);
         odds(x, 2, 9);
@@ -82,7 +72,7 @@ public final class AttackTest {
     }
 
     private static void promise20And21Refusals() {
-        Played x = facing(5, 3);
+        Played x = Scene.facing(5, 3);
         x.add(0, 10, 1, 1);
         for (int cell : new int[] {-1, 63, Integer.MIN_VALUE, Integer.MAX_VALUE}) {
             both(x, IndexOutOfBoundsException.class, cell, 21);
@@ -108,7 +98,7 @@ public final class AttackTest {
         for (int strength = 1; strength <= 9; strength++) {
             for (int other = 1; other <= 9; other++) {
                 int due = strength >= 2 * other ? 2 : strength > other ? 1 : 0;
-                Played x = facing(strength, other);
+                Played x = Scene.facing(strength, other);
                 Check.same("attack of " + strength + " on " + other, x.attack(20, 21), due);
                 Check.same("count(7)", x.count(7), 1);
                 Check.same("lost by 0", x.account(0, 2), due == 2 ? 0 : 1);
@@ -120,40 +110,29 @@ public final class AttackTest {
         }
     }
 
-    private static void strengths(Played x, int... dues) {
-        for (int unit = 0; unit < dues.length; unit++) {
-            int u = unit;
-            if (dues[unit] == 0) {
-                Check.refused("unit(" + unit + ", 2)", IndexOutOfBoundsException.class, () -> x.unit(u, 2));
-            } else {
-                Check.same("unit(" + unit + ", 2)", x.unit(unit, 2), dues[unit]);
-            }
-        }
-    }
-
     private static void promise21LossesOfEach() {
-        Played x = facing(3, 2);
+        Played x = Scene.facing(3, 2);
         x.add(0, 20, 1, 1);
         x.add(1, 21, 1, 1);
         Check.same("4 on 3", x.attack(20, 21), 1);
-        strengths(x, 2, 1, 1, 1);
-        Played y = facing(3, 4);
+        Check.strengths(x, 2, 1, 1, 1);
+        Played y = Scene.facing(3, 4);
         y.add(0, 20, 1, 1);
         y.add(1, 21, 1, 1);
         Check.same("4 on 5", y.attack(20, 21), 0);
-        strengths(y, 2, 4, 0, 1);
-        Played z = facing(6, 2);
+        Check.strengths(y, 2, 4, 0, 1);
+        Played z = Scene.facing(6, 2);
         z.add(0, 20, 4, 1);
         z.add(1, 21, 1, 1);
         z.add(1, 21, 2, 1);
         Check.same("10 on 5", z.attack(20, 21), 2);
-        strengths(z, 6, 1, 4, 0, 1);
+        Check.strengths(z, 6, 1, 4, 0, 1);
         Check.same("account(1, 2)", z.account(1, 2), 3);
         Check.same("cell(21, 3)", z.cell(21, 3), 0);
     }
 
     private static void promise21Unseen() {
-        Played x = facing(9, 2);
+        Played x = Scene.facing(9, 2);
         x.set(true, 1);
         x.setTerrain(20, 5 - 1, false);
         Check.same("unit(1, 9)", x.unit(1, 9), 1);
@@ -161,75 +140,68 @@ public final class AttackTest {
         Check.same("unit(1, 1)", x.unit(1, 1), 12);
     }
 
-    private static int refuge(Played x) {
-        Check.same("attack(20, 21)", x.attack(20, 21), 2);
-        int found = x.unit(1, 1);
-        x.undo();
-        return found;
-    }
-
     private static void promise21RetreatChoice() {
-        Played x = facing(9, 2);
-        Check.same("the lowest number", refuge(x), 12);
+        Played x = Scene.facing(9, 2);
+        Check.same("the lowest number", Scene.refuge(x), 12);
         x.setTerrain(12, 1, false);
-        Check.same("the least cost", refuge(x), 22);
+        Check.same("the least cost", Scene.refuge(x), 22);
         x.setTerrain(22, 2, false);
         x.setTerrain(30, 4, false);
-        Check.same("the lowest number of equal costs", refuge(x), 12);
+        Check.same("the lowest number of equal costs", Scene.refuge(x), 12);
         x.set(true, 2);
         x.setTerrain(30, 3, false);
-        Check.same("the least cost with snow", refuge(x), 30);
+        Check.same("the least cost with snow", Scene.refuge(x), 30);
         x.setTerrain(21, 0, true);
         x.setTerrain(22, 1, true);
-        Check.same("a road", refuge(x), 22);
+        Check.same("a road", Scene.refuge(x), 22);
         x.set(true, 0);
         x.setTerrain(22, 1, false);
         x.setTerrain(30, 1, true);
-        Check.same("a road of the greatest number", refuge(x), 30);
+        Check.same("a road of the greatest number", Scene.refuge(x), 30);
         x.undo();
         x.undo();
         x.undo();
         x.setTerrain(22, 5, false);
-        Check.same("no water", refuge(x), 30);
+        Check.same("no water", Scene.refuge(x), 30);
         x.add(0, 31, 1, 1);
-        Check.same("not in the zone", refuge(x), 12);
+        Check.same("not in the zone", Scene.refuge(x), 12);
         x.setTerrain(12, 5, false);
         x.setTerrain(11, 4, false);
-        Check.same("a mountain is in no zone", refuge(x), 11);
+        Check.same("a mountain is in no zone", Scene.refuge(x), 11);
         x.setTerrain(30, 4, false);
-        Check.same("the greatest distance", refuge(x), 30);
+        Check.same("the greatest distance", Scene.refuge(x), 30);
     }
 
     private static void promise21RetreatByUnits() {
-        Played x = facing(9, 4);
+        Played x = Scene.facing(9, 4);
         x.setTerrain(22, 5, false);
         x.setTerrain(12, 5, false);
         x.add(0, 30, 1, 1);
-        Check.same("no cell out of the zone", refuge(x), 21);
+        Check.same("no cell out of the zone", Scene.refuge(x), 21);
         x.add(1, 29, 7, 1);
-        Check.same("a unit in the zone", refuge(x), 29);
+        Check.same("a unit in the zone", Scene.refuge(x), 29);
         x.add(1, 29, 2, 1);
-        Check.same("12 with it", refuge(x), 29);
+        Check.same("12 with it", Scene.refuge(x), 29);
         x.undo();
         x.add(1, 29, 3, 1);
-        Check.same("13 with it", refuge(x), 21);
+        Check.same("13 with it", Scene.refuge(x), 21);
         x.undo();
         x.add(1, 29, 1, 1);
         x.add(1, 29, 1, 1);
-        Check.same("three others", refuge(x), 21);
+        Check.same("three others", Scene.refuge(x), 21);
     }
 
     private static void promise21RetreatInOrder() {
-        Played x = facing(6, 3);
+        Played x = Scene.facing(6, 3);
         x.add(0, 20, 6, 1);
         x.add(1, 21, 2, 1);
         x.add(1, 21, 1, 1);
         x.add(1, 12, 9, 1);
         Check.same("12 on 6", x.attack(20, 21), 2);
-        strengths(x, 6, 2, 6, 1, 0, 9);
+        Check.strengths(x, 6, 2, 6, 1, 0, 9);
         Check.same("the first one to a cell with room", x.unit(1, 1), 12);
         Check.same("the second one as well", x.unit(3, 1), 12);
-        Played y = facing(6, 3);
+        Played y = Scene.facing(6, 3);
         y.add(0, 20, 6, 1);
         y.add(1, 21, 2, 1);
         y.add(1, 12, 9, 1);
@@ -240,19 +212,19 @@ public final class AttackTest {
     }
 
     private static void promise21NoRetreat() {
-        Played x = facing(9, 4);
+        Played x = Scene.facing(9, 4);
         for (int cell : new int[] {22, 12, 30}) {
             x.setTerrain(cell, 5, false);
         }
         Check.same("9 on 4", x.attack(20, 21), 2);
-        strengths(x, 9, 1);
+        Check.strengths(x, 9, 1);
         Check.same("unit(1, 1)", x.unit(1, 1), 21);
         Check.same("account(1, 2)", x.account(1, 2), 3);
         x.undo();
         x.add(0, 20, 3, 1);
         x.add(1, 21, 2, 1);
         Check.same("12 on 6", x.attack(20, 21), 2);
-        strengths(x, 9, 1, 3, 0);
+        Check.strengths(x, 9, 1, 3, 0);
         Check.same("account(1, 2) of what they had", x.account(1, 2), 5);
         Check.same("account(1, 5)", x.account(1, 5), 1);
         Check.same("cell(21, 4)", x.cell(21, 4), 1);
@@ -286,12 +258,12 @@ public final class AttackTest {
         x.add(1, 31, 2, 1);
         x.set(false, 2);
         Check.same("endTurn() of side 0", x.endTurn(), 0);
-        strengths(x, 1, 1, 1, 1, 2);
+        Check.strengths(x, 1, 1, 1, 1, 2);
         Check.same("endTurn() of side 1", x.endTurn(), 1);
-        strengths(x, 1, 1, 1, 0, 1);
+        Check.strengths(x, 1, 1, 1, 0, 1);
         x.set(false, 1);
         Check.same("endTurn() of side 0 with a range of 1", x.endTurn(), 2);
-        strengths(x, 1, 0, 0, 0, 1);
+        Check.strengths(x, 1, 0, 0, 0, 1);
         Check.same("account(0, 3)", x.account(0, 3), 3);
         Check.same("account(0, 5)", x.account(0, 5), 2);
         Check.same("account(1, 3)", x.account(1, 3), 2);

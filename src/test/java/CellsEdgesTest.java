@@ -170,6 +170,7 @@ public final class CellsEdgesTest {
         Check.same("distance(30, 32) over a unit", x.distance(30, 32), 2);
     }
 
+    /** "Neighbors outside of the map do not exist", for zones. */
     private static void zonesEndWithTheMap() {
         Played x = new Played();
         for (int cell = 0; cell < 63; cell++) {
@@ -179,6 +180,7 @@ public final class CellsEdgesTest {
         }
     }
 
+    /** "Neighbors outside of the map do not exist", for sight. */
     private static void sightEndsWithTheMap() {
         for (int weather = 0; weather <= 2; weather++) {
             Played x = new Played();
@@ -192,6 +194,7 @@ public final class CellsEdgesTest {
         }
     }
 
+    /** "Neighbors outside of the map do not exist", for supply. */
     private static void supplyEndsWithTheMap() {
         Played x = new Played();
         x.set(false, 1);
@@ -202,6 +205,7 @@ public final class CellsEdgesTest {
         }
     }
 
+    /** "Neighbors outside of the map do not exist", for movement. */
     private static void movementEndsWithTheMap() {
         Played x = new Played();
         for (int cell = 0; cell < 63; cell++) {
@@ -229,6 +233,7 @@ public final class CellsEdgesTest {
         }
     }
 
+    /** "Neighbors outside of the map do not exist", for retreats. */
     private static void retreatsEndWithTheMap() {
         for (int to = 0; to < 63; to++) {
             for (int direction = 0; direction < 6; direction++) {

@@ -3,8 +3,6 @@ import java.util.Objects;
 
 /** What the tests compare with, and how they end. */
 final class Check {
-    /** Numbers that are far out of every range of the document. */
-    static final int[] FAR = {Integer.MIN_VALUE, Integer.MAX_VALUE};
     private static int wrong = 0;
 
     private Check() {
@@ -51,6 +49,18 @@ final class Check {
     /** A bit of a set of cells. */
     static void holds(String what, long set, int cell, boolean due) {
         same(what + " with the cell " + cell, (set >>> cell & 1) != 0, due);
+    }
+
+    /** The strengths of the units from 0 on, 0 for one that was removed. */
+    static void strengths(Played x, int... dues) {
+        for (int unit = 0; unit < dues.length; unit++) {
+            int u = unit;
+            if (dues[unit] == 0) {
+                refused("unit(" + unit + ", 2)", IndexOutOfBoundsException.class, () -> x.unit(u, 2));
+            } else {
+                same("unit(" + unit + ", 2)", x.unit(unit, 2), dues[unit]);
+            }
+        }
     }
 
     static void end() {

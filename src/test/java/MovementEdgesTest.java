@@ -73,6 +73,7 @@ public final class MovementEdgesTest {
         }
     }
 
+    /** "Whose cost is at most the allowance": with rain and with snow each step costs 2. */
     private static void allowanceInEachWeather() {
         for (int weather = 1; weather <= 2; weather++) {
             Played x = Scene.corridor("ppppppppp");
@@ -229,6 +230,7 @@ public final class MovementEdgesTest {
         noWay(x, 0, 22, 23);
     }
 
+    /** "The known zone is the zone of the other side": its own one hinders nobody. */
     private static void zonesOfItsOwnSide() {
         Played x = Scene.corridor("ppppppp");
         x.setTerrain(12, 0, false);

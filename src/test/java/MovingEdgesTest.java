@@ -167,6 +167,7 @@ public final class MovingEdgesTest {
         }
     }
 
+    /** "If there is a unit of the other side on the next cell", which is the end of the way. */
     private static void ambushAtTheEnd() {
         Played x = Scene.hiddenAt23("PPPPMPPPP");
         Check.holds("reach(0)", x.reach(0), 23, true);
@@ -184,6 +185,7 @@ public final class MovingEdgesTest {
         afterAnAmbush(x, 0, 22, 0);
     }
 
+    /** "This is an ambush": one, however many units there are. */
     private static void ambushesOfSeveralUnits() {
         Played x = Scene.hiddenAt23("PPPPMPPPP");
         x.add(1, 23, 1, 1);
@@ -200,6 +202,7 @@ public final class MovingEdgesTest {
         Check.refused("a move beside known units", UnsupportedOperationException.class, () -> x.move(4, 24));
     }
 
+    /** "A unit of the other side": side 1 is stopped by side 0. */
     private static void ambushOfSideOne() {
         Played x = Scene.hiddenAt23("PPPPMPPPP");
         x.setTerrain(22, 0, true);
@@ -270,6 +273,7 @@ public final class MovingEdgesTest {
         }
     }
 
+    /** "And not the end of the way": nothing stops it there, and it is no ambush. */
     private static void endInAKnownZone() {
         Played x = new Played();
         x.setSource(31, 0, true);
@@ -279,6 +283,7 @@ public final class MovingEdgesTest {
         Check.same("no ambush", x.count(6), 0);
     }
 
+    /** "In the zone of the other side": its own one stops nobody. */
     private static void noStopInItsOwnZone() {
         Played x = Scene.corridor("ppppppp");
         x.setTerrain(12, 0, false);
@@ -287,6 +292,7 @@ public final class MovingEdgesTest {
         Check.same("move(0, 24)", x.move(0, 24), 24);
     }
 
+    /** "If there is no such level, or no report". */
     private static void noReportAtFirst() {
         Played x = new Played();
         for (int level : new int[] {0, 1, 2, 3, -1, Integer.MIN_VALUE, Integer.MAX_VALUE}) {

@@ -52,6 +52,32 @@ final class Scene {
         return x;
     }
 
+    /** Units of side 0 on 20 and of side 1 on 21, with supply, each with the sum of strengths. */
+    static Played facing(int strength, int other) {
+        Played x = new Played();
+        x.setSource(20, 0, true);
+        x.setSource(21, 1, true);
+        stack(x, 0, 20, strength);
+        stack(x, 1, 21, other);
+        return x;
+    }
+
+    /** Two units where one has not strength enough. */
+    private static void stack(Played x, int side, int cell, int strength) {
+        x.add(side, cell, Math.min(9, strength), 5);
+        if (strength > 9) {
+            x.add(side, cell, strength - 9, 5);
+        }
+    }
+
+    /** The cell to which the unit of side 1 on 21 retreats before 9 on 20. */
+    static int refuge(Played x) {
+        Check.same("attack(20, 21)", x.attack(20, 21), 2);
+        int found = x.unit(1, 1);
+        x.undo();
+        return found;
+    }
+
     /** A set of cells, by their numbers. */
     static long set(int... cells) {
         long found = 0;

@@ -45,6 +45,7 @@ public final class SupplyEdgesTest {
         }
     }
 
+    /** "A way that leads from a source of the side": those of the other side supply nobody. */
     private static void sourcesOfTheOtherSide() {
         Played x = new Played();
         x.setSource(31, 0, true);
@@ -199,6 +200,7 @@ public final class SupplyEdgesTest {
         Check.same("cells(1, 4)", x.cells(1, 4), Grid.ring(31, 2, 11));
     }
 
+    /** "The least sum of the costs of the steps", from any source. */
     private static void leastOfSeveralSources() {
         Played x = Scene.corridor("pppmpppp");
         x.setSource(18, 0, true);
@@ -235,6 +237,7 @@ public final class SupplyEdgesTest {
         supplied(x, 0, 10, false);
     }
 
+    /** "The supply range, a number from 1": the costs 0, 1 and 2. */
     private static void leastSupplyRange() {
         Played x = Scene.corridor("ppp");
         x.set(false, 1);
@@ -247,6 +250,7 @@ public final class SupplyEdgesTest {
         supplied(x, 2, 2, false);
     }
 
+    /** "To 30": the costs 30 and 31. */
     private static void greatestSupplyRange() {
         Played x = Scene.corridor("pmmmmmmsm");
         x.set(false, 30);

@@ -148,6 +148,7 @@ public final class TerrainEdgesTest {
         Check.same("set leaves the weather", x.count(3), 0);
     }
 
+    /** "What: 0 its terrain; [..] 4 the sum of their strengths". */
     private static void whatOfACell() {
         Played x = Scene.busy();
         for (int what : new int[] {-1, 5, Integer.MIN_VALUE, Integer.MAX_VALUE}) {
@@ -160,6 +161,7 @@ public final class TerrainEdgesTest {
         Check.same("the sum of no strengths", x.cell(0, 4), 0);
     }
 
+    /** "What: 0 the units; [..] 7 the attacks so far". */
     private static void whatIsCounted() {
         Played x = new Played();
         int[] dues = {0, 0, 0, 0, 10, 4, 0, 0};

@@ -143,6 +143,7 @@ public final class TextEdgesTest {
         }
     }
 
+    /** "P plain, w wood, h hill, s swamp, m mountain, ~ water, and P, W, H, S and M". */
     private static void eachLetter() {
         for (int i = 0; i < LETTERS.length(); i++) {
             Played x = new Played();
@@ -239,6 +240,7 @@ public final class TextEdgesTest {
         Check.same("feed afterwards", x.feed('p'), 1);
     }
 
+    /** "If a cell with a unit would become water": the first and the last one of a row and of the map. */
     private static void waterUnderUnitsOfTheEdges() {
         String water = plains().replace('p', '~');
         for (int cell : new int[] {0, 8, 9, 53, 54, 62}) {
@@ -304,6 +306,7 @@ public final class TextEdgesTest {
         }
     }
 
+    /** "Which has one letter for each column", with a road and without. */
     private static void eachCharacterOfATerrain() {
         for (int cell : new int[] {0, 8, 9, 54, 62}) {
             Played x = new Played();
@@ -318,6 +321,7 @@ public final class TextEdgesTest {
         }
     }
 
+    /** The text of a map is one that can be read. */
     private static void textsAreReadAgain() {
         Played x = Scene.ofText(MAP);
         Played y = Scene.ofText(Scene.text(x));

@@ -46,6 +46,7 @@ public final class TurnEdgesTest {
         Check.same("the side after start", x.count(2), 0);
     }
 
+    /** "In a turn, each unit of the side can move once": again in each turn of its side. */
     private static void newTurnsForAllUnits() {
         Played x = new Played();
         x.setSource(31, 0, true);
@@ -107,6 +108,7 @@ public final class TurnEdgesTest {
         Check.same("endTurn() without units", x.endTurn(), 0);
     }
 
+    /** "Returns the number of units that were removed": all 16. */
     private static void sixteenUnitsAreRemoved() {
         Played x = new Played();
         x.endTurn();

@@ -111,6 +111,7 @@ public final class UndoEdgesTest {
         }
     }
 
+    /** "A successful call": refused ones are none. */
     private static void refusedCallsAreNoChanges() {
         Change[] refused = {x -> x.setTerrain(31, 5, false), x -> x.setTerrain(40, 6, false),
             x -> x.setSource(40, 2, true), x -> x.set(true, 3), x -> x.set(false, 0), x -> x.add(1, 31, 1, 1),
@@ -249,6 +250,7 @@ public final class UndoEdgesTest {
         Check.same("restore() of no units", x.restore(), 0);
     }
 
+    /** What is taken back is the game: the report and the buffer are none of it. */
     private static void undoLeavesReportAndInput() {
         Played x = facing();
         Check.refused("move(0, 62)", UnsupportedOperationException.class, () -> x.move(0, 62));
@@ -361,6 +363,7 @@ public final class UndoEdgesTest {
         Check.same("restore() of nothing", x.restore(), 0);
     }
 
+    /** "Returns the number of units": 0. */
     private static void savedWithoutUnits() {
         Played x = new Played();
         Check.same("save()", x.save(), 0);
@@ -371,6 +374,7 @@ public final class UndoEdgesTest {
         Check.sameSight("after restore", Sight.game(x), Sight.game(new Played()));
     }
 
+    /** "Returns the number of units": 16. */
     private static void savedWithSixteenUnits() {
         Played x = new Played();
         for (int i = 0; i < 16; i++) {
@@ -423,6 +427,7 @@ public final class UndoEdgesTest {
         return all.toString();
     }
 
+    /** "Saves everything": the number z, too. */
     private static void savedNumberOfTheWeather() {
         Played x = new Played();
         x.start(7);

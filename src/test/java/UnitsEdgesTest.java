@@ -60,6 +60,7 @@ public final class UnitsEdgesTest {
         Check.refusedUnchanged(x, "the 17th unit", IllegalStateException.class, () -> x.add(0, 62, 1, 1));
     }
 
+    /** "If there have been 16 units": one that was taken back has not been. */
     private static void unitsTakenBackDoNotCount() {
         Played x = new Played();
         for (int unit = 0; unit < 15; unit++) {
@@ -144,6 +145,7 @@ public final class UnitsEdgesTest {
         refusedForAll(y, 16, -1);
     }
 
+    /** "If there is no such unit": one that was removed. */
     private static void removedUnitsAreNoUnits() {
         Played x = new Played();
         x.add(0, 30, 1, 2);
@@ -262,6 +264,7 @@ public final class UnitsEdgesTest {
         }
     }
 
+    /** "What: 0 its side; [..] 9: 1 if the other side sees its cell". */
     private static void whatOfAUnit() {
         Played x = Scene.busy();
         for (int what : new int[] {-1, 10, Integer.MIN_VALUE, Integer.MAX_VALUE}) {

@@ -24,6 +24,7 @@ public final class ZoneAndSightEdgesTest {
         Check.end();
     }
 
+    /** "By a set of its units": by none there is no zone. */
     private static void noZoneWithoutUnits() {
         Played x = new Played();
         Check.same("cells(0, 0)", x.cells(0, 0), 0L);
@@ -65,6 +66,7 @@ public final class ZoneAndSightEdgesTest {
         Check.holds("the zone on a cell of the other side", x.cells(1, 0), 30, true);
     }
 
+    /** "A cell with one of these units": where they are now. */
     private static void zonesOfMovedAndRemovedUnits() {
         Played x = new Played();
         x.add(0, 31, 1, 2);
@@ -237,6 +239,7 @@ public final class ZoneAndSightEdgesTest {
         }
     }
 
+    /** "What: 0 its zone, [..] 4 the cells that have a supply cost". */
     private static void whatOfCells() {
         Played x = Scene.busy();
         for (int what : new int[] {-1, 5, Integer.MIN_VALUE, Integer.MAX_VALUE}) {

@@ -6,6 +6,7 @@ public final class MovingEdgesTest {
     public static void main(String[] args) {
         lastCellOfTheAllowance();
         onceInATurn();
+        onceForEachUnit();
         notAfterAnAttack();
         onItsTurnAlone();
         unitsOfThisTurn();
@@ -78,6 +79,28 @@ public final class MovingEdgesTest {
         Check.refusedUnchanged(x, "a move on the other turn", IllegalStateException.class, () -> x.move(0, 33));
         x.endTurn();
         Check.same("the move of the next turn", x.move(0, 33), 33);
+    }
+
+    /** "Each unit [..] can move once": also after others have moved, in whatever order. */
+    private static void onceForEachUnit() {
+        Played x = new Played();
+        for (int unit = 0; unit < 16; unit++) {
+            x.add(0, unit, 1, 4);
+        }
+        int[] order = {15, 0, 7, 8, 3, 12, 1, 14, 5, 10, 2, 13, 4, 11, 6, 9};
+        int moved = 0;
+        for (int unit : order) {
+            Check.same("the move of unit " + unit, x.move(unit, unit + 18), unit + 18);
+            moved |= 1 << unit;
+            for (int other = 0; other < order.length; other++) {
+                Check.same("after the move of " + unit + ", unit(" + other + ", 7)", x.unit(other, 7),
+                        1 - (moved >>> other & 1));
+            }
+        }
+        for (int unit : order) {
+            Check.refused("another move of unit " + unit, IllegalStateException.class,
+                    () -> x.move(unit, unit));
+        }
     }
 
     /** "It cannot move after it has attacked", but attack after it has moved. */

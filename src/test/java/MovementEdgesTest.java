@@ -19,6 +19,7 @@ public final class MovementEdgesTest {
         zonesOfItsOwnSide();
         roomForTwelveAtTheEnd();
         roomForThreeUnitsAtTheEnd();
+        roomOnCellsWithTheNumbersOfUnits();
         roomIsNeededAtTheEndAlone();
         hiddenUnitsTakeNoRoom();
         reachWithoutATurn();
@@ -266,6 +267,20 @@ public final class MovementEdgesTest {
         Check.same("cost to a full cell", x.cost(0, 19), 1);
         Check.same("way to a full cell", x.way(0, 19, 1), 19);
         Check.same("reach of one of three", x.reach(1), 1L << 18);
+    }
+
+    /** Each unit stands on the cell of its number, and takes room there. */
+    private static void roomOnCellsWithTheNumbersOfUnits() {
+        Played x = new Played();
+        x.setSource(24, 0, true);
+        for (int unit = 0; unit < 15; unit++) {
+            x.add(0, unit, 9, 12);
+        }
+        x.add(0, 24, 4, 12);
+        Check.same("reach", x.reach(15), Long.MAX_VALUE & ~0x7FFFL & ~(1L << 24));
+        for (int cell = 0; cell < 15; cell++) {
+            Check.same("way(15, " + cell + ", 0)", x.way(15, cell, 0), 24);
+        }
     }
 
     /** "And the cell has room for it": the cells before it need none. */

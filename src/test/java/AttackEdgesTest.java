@@ -24,6 +24,7 @@ public final class AttackEdgesTest {
         lastStrengthOfTheLowest();
         retreatToTheGreatestDistance();
         retreatByTheLeastCost();
+        retreatFromOffTheRoad();
         retreatByTheLowestNumber();
         noRetreatToWater();
         noRetreatIntoTheZone();
@@ -35,6 +36,8 @@ public final class AttackEdgesTest {
         retreatsInAscendingOrder();
         noRetreatInTheCorner();
         retreatsOfSideZero();
+        retreatOfSideZeroToItsOwn();
+        unitsOfAllNumbers();
         whoWasAttackedCanAttack();
         whatOfAnAccount();
         accountsOfLosses();
@@ -344,6 +347,21 @@ public final class AttackEdgesTest {
         }
     }
 
+    /** "1 if both cells have a road": 30 has one, but the cell from which it retreats has none. */
+    private static void retreatFromOffTheRoad() {
+        int[] costs = {1, 2, 2, 3, 4};
+        for (int one = 0; one <= 4; one++) {
+            for (int other = 0; other <= 4; other++) {
+                Played x = Scene.facing(9, 2);
+                x.setTerrain(12, one, false);
+                x.setTerrain(22, 5, false);
+                x.setTerrain(30, other, true);
+                Check.same("refuge of " + one + " and of the road in " + other, Scene.refuge(x),
+                        costs[other] < costs[one] ? 30 : 12);
+            }
+        }
+    }
+
     /** "Then the lowest number". */
     private static void retreatByTheLowestNumber() {
         Played x = Scene.facing(9, 2);
@@ -495,6 +513,74 @@ public final class AttackEdgesTest {
         Check.same("attack(21, 20)", x.attack(21, 20), 2);
         Check.same("unit(0, 1)", x.unit(0, 1), 10);
         Check.same("account(0, 2)", x.account(0, 2), 1);
+    }
+
+    /** "Or has a unit of its own side on it", for side 0, as unit 0 and as unit 1: 11 and 29 are in the zone. */
+    private static void retreatOfSideZeroToItsOwn() {
+        for (int unit = 0; unit <= 1; unit++) {
+            Played x = new Played();
+            x.setSource(21, 1, true);
+            for (int cell : new int[] {10, 19, 28}) {
+                x.setTerrain(cell, 5, false);
+            }
+            x.endTurn();
+            // The side with this number comes first, so that the unit of side 0 gets the number.
+            x.add(unit, 20 + unit, unit == 0 ? 4 : 9, 1);
+            x.add(1 - unit, 21 - unit, unit == 0 ? 9 : 4, 1);
+            Check.same("attack(21, 20) on unit " + unit, x.attack(21, 20), 2);
+            Check.same("unit(.., 2) where it stays", x.unit(unit, 2), 1);
+            Check.same("unit(.., 1) where it stays", x.unit(unit, 1), 20);
+            x.undo();
+            x.add(0, 29, 1, 1);
+            Check.same("attack(21, 20) on unit " + unit, x.attack(21, 20), 2);
+            Check.same("unit(.., 2) after its retreat", x.unit(unit, 2), 3);
+            Check.same("unit(.., 1) after its retreat", x.unit(unit, 1), 29);
+        }
+    }
+
+    /** The units on 20 and 21 have the numbers first and first + 1; those before them have no supply. */
+    private static Played numbered(int first, int attack, int defense, boolean isDefenderFirst) {
+        Played x = new Played();
+        x.setSource(20, 0, true);
+        x.setSource(21, 1, true);
+        x.set(false, 1);
+        x.setTerrain(21, 0, true);
+        x.setTerrain(12, 1, false);
+        x.setTerrain(22, 1, false);
+        x.setTerrain(30, 1, true);
+        for (int unit = 0; unit < first; unit++) {
+            x.add(0, 54 + unit / 3, 1, 1);
+        }
+        if (isDefenderFirst) {
+            x.add(1, 21, defense, 1);
+        }
+        x.add(0, 20, attack, 1);
+        if (!isDefenderFirst) {
+            x.add(1, 21, defense, 1);
+        }
+        return x;
+    }
+
+    /** Units of all numbers, up to 15, attack and are attacked, lose and retreat to 30 by road. */
+    private static void unitsOfAllNumbers() {
+        for (int first = 0; first < 15; first++) {
+            for (int attack = 4; attack <= 8; attack++) {
+                for (int order = 0; order <= 1; order++) {
+                    Played x = numbered(first, attack, 4, order == 1);
+                    int attacker = first + order;
+                    int defender = first + 1 - order;
+                    int due = attack == 4 ? 0 : attack < 8 ? 1 : 2;
+                    Check.same("balance with " + first, x.balance(), (attack + first) / 4.0);
+                    Check.same("odds(20, 21, false) of " + attacker, x.odds(20, 21, false), attack);
+                    Check.same("odds(20, 21, true) of " + defender, x.odds(20, 21, true), 4);
+                    Check.same("attack of " + attacker + " on " + defender, x.attack(20, 21), due);
+                    Check.same("unit(" + attacker + ", 2)", x.unit(attacker, 2), due == 2 ? attack : attack - 1);
+                    Check.same("unit(" + defender + ", 2)", x.unit(defender, 2), due == 0 ? 4 : 3);
+                    Check.same("unit(" + defender + ", 1)", x.unit(defender, 1), due == 2 ? 30 : 21);
+                    Check.same("endTurn() with " + first, x.endTurn(), first);
+                }
+            }
+        }
     }
 
     /** "Attack once" in a turn of its own side: being attacked is none. */

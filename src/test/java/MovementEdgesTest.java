@@ -20,6 +20,7 @@ public final class MovementEdgesTest {
         roomForTwelveAtTheEnd();
         roomForThreeUnitsAtTheEnd();
         roomOnCellsWithTheNumbersOfUnits();
+        roomByItsOwnSide();
         roomIsNeededAtTheEndAlone();
         hiddenUnitsTakeNoRoom();
         reachWithoutATurn();
@@ -28,6 +29,7 @@ public final class MovementEdgesTest {
         noWayAtAll();
         leastCells();
         leastCellsWithRoads();
+        leastCellsAroundAZone();
         Check.end();
     }
 
@@ -283,6 +285,26 @@ public final class MovementEdgesTest {
         }
     }
 
+    /** "By all units of its own side": the units 1 to 12 are of the other one and do not see it. */
+    private static void roomByItsOwnSide() {
+        for (int movement = 1; movement <= 12; movement++) {
+            for (int side = 0; side <= 1; side++) {
+                Played x = new Played();
+                x.setSource(31, side, true);
+                x.set(true, 1);
+                x.setTerrain(31, 0, true);
+                x.setTerrain(32, 0, true);
+                x.add(side, 31, 9, movement);
+                for (int unit = 1; unit <= 12; unit++) {
+                    x.add(1 - side, 53 + (unit + 2) / 3, 1, 1);
+                }
+                Check.holds("reach of an empty cell", x.reach(0), 32, true);
+                x.add(side, 32, 9, 1);
+                Check.holds("reach of 9 to 9", x.reach(0), 32, false);
+            }
+        }
+    }
+
     /** "And the cell has room for it": the cells before it need none. */
     private static void roomIsNeededAtTheEndAlone() {
         Played x = Scene.corridor("ppp");
@@ -384,6 +406,23 @@ public final class MovementEdgesTest {
                 }
             }
         }
+    }
+
+    /** Of two ways with the least cost the lesser one leads through a known zone, where it cannot go on. */
+    private static void leastCellsAroundAZone() {
+        Played x = new Played();
+        x.add(0, 38, 1, 12);
+        Check.same("way(0, 20, 1) over 28 or 29", x.way(0, 20, 1), 28);
+        x.add(1, 27, 1, 12);
+        Check.same("cost(0, 20) beside 27", x.cost(0, 20), 2);
+        Check.same("way(0, 20, 1) beside 27", x.way(0, 20, 1), 29);
+        Check.same("way(0, 28, 1) into the zone", x.way(0, 28, 1), 28);
+        x.setTerrain(29, 5, false);
+        Check.same("cost(0, 20) around the zone and the water", x.cost(0, 20), 4);
+        Check.same("way(0, 20, 1) around the zone and the water", x.way(0, 20, 1), 39);
+        x.setTerrain(28, 4, true);
+        x.setTerrain(38, 0, true);
+        Check.same("way(0, 20, 1) over a mountain, which is in no zone", x.way(0, 20, 1), 28);
     }
 
     /** A way with more steps has the same cost, and is the least one if its cells are. */

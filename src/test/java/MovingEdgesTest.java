@@ -28,6 +28,7 @@ public final class MovingEdgesTest {
         reportOfTheCost();
         reportOfTheAllowance();
         reportOfRoom();
+        reportOfRoomOnEachTurn();
         costBeforeRoom();
         lastLevelAndWhat();
         reportsAreReplaced();
@@ -381,6 +382,23 @@ public final class MovingEdgesTest {
         cannotReach(x, 0, 21, 1, 0, 4, 3);
         x.setSource(18, 0, true);
         cannotReach(x, 0, 21, 1, 0, 4, 3);
+    }
+
+    /** "Units of its own side", whichever it is, in whatever round and weather. */
+    private static void reportOfRoomOnEachTurn() {
+        for (int turn = 0; turn < 6; turn++) {
+            Played x = new Played();
+            for (int ended = 0; ended < turn; ended++) {
+                x.endTurn();
+            }
+            x.set(true, turn / 2);
+            x.add(turn % 2, 31, 5, 12);
+            x.add(turn % 2, 32, 8, 1);
+            x.add(1 - turn % 2, 62, 1, 1);
+            cannotReach(x, 0, 32, 1, 0, 4, 1);
+            x.add(turn % 2, 32, 4, 1);
+            cannotReach(x, 0, 32, 1, 0, 4, 2);
+        }
     }
 
     /** The cost comes first; at the allowance itself the room is the cause. */

@@ -18,8 +18,11 @@ public final class RandomRunsTest {
     private static final String[] MARCHES = {"move", "move", "move", "move", "move", "move", "attack", "endTurn",
         "undo"};
     private static long number = 1;
-    /** Ambushes, results 0 to 2, refused moves, moves, and moves that ended elsewhere. */
-    private static final int[] COUNTS = new int[7];
+    /** Ambushes, results 0 to 2, refused moves, moves, moves that ended elsewhere, and moves without room. */
+    private static final int[] COUNTS = new int[8];
+    /** What one step and the questions at the end of a run need at most. */
+    private static final int MOST_AT_ONCE = 8;
+    private static final int MOST_AT_THE_END = 85;
     /** The letters that were fed to the map that is being read. */
     private static int fed = 0;
     private static HexCampaign played;
@@ -59,7 +62,8 @@ public final class RandomRunsTest {
             play(face, run);
         }
         System.out.println("ambushes " + COUNTS[0] + ", results " + COUNTS[1] + " " + COUNTS[2] + " " + COUNTS[3]
-                + ", refused moves " + COUNTS[4] + ", moves " + COUNTS[5] + ", stopped " + COUNTS[6]);
+                + ", refused moves " + COUNTS[4] + ", moves " + COUNTS[5] + ", stopped " + COUNTS[6]
+                + ", without room " + COUNTS[7]);
         Check.same("each kind of result is met", isEachMet(), true);
         Check.end();
     }
@@ -85,7 +89,7 @@ public final class RandomRunsTest {
         boolean isWarm = isWide || oneIn(2);
         int limit = run % 4 == 0 ? CALLS : 220;
         fed = 0;
-        for (int i = 0; i < limit && calls < CALLS - 1; i++) {
+        for (int i = 0; i < limit && calls < CALLS - MOST_AT_ONCE - MOST_AT_THE_END; i++) {
             Method m = pick(face);
             Object[] values = isWarm && i < 110 ? null : valuesFor(m.getName());
             if (values == null) {
@@ -97,8 +101,36 @@ public final class RandomRunsTest {
                 continue;
             }
             int before = naive.count(6);
-            compare(m, values, "run " + run + " call " + i + ": ");
+            String where = "run " + run + " call " + i + ": ";
+            if (compare(m, values, where) == UnsupportedOperationException.class) {
+                compareReport(face, where);
+            }
             COUNTS[0] += m.getName().equals("move") && naive.count(6) > before ? 1 : 0;
+        }
+        compareAll(face, "end of run " + run + ": ");
+    }
+
+    /** All levels that a report can have. */
+    private static void compareReport(List<Method> face, String where) {
+        for (int level = 0; level < 3; level++) {
+            Object code = compare(find(face, "report"), new Object[] {level, 0}, where);
+            compare(find(face, "report"), new Object[] {level, 1}, where);
+            COUNTS[7] += level == 1 && code.equals(4) ? 1 : 0;
+        }
+    }
+
+    private static void compareAll(List<Method> face, String where) {
+        for (int unit = 0; unit < 16; unit++) {
+            for (int what : new int[] {1, 2, 7, 8}) {
+                compare(find(face, "unit"), new Object[] {unit, what}, where);
+            }
+        }
+        for (int what = 0; what < 8; what++) {
+            compare(find(face, "count"), new Object[] {what}, where);
+        }
+        for (int what = 0; what < 6; what++) {
+            compare(find(face, "account"), new Object[] {0, what}, where);
+            compare(find(face, "account"), new Object[] {1, what}, where);
         }
     }
 
@@ -118,7 +150,8 @@ public final class RandomRunsTest {
         return oneIn(3) ? face.get(draw(face.size())) : find(face, CHANGES[draw(CHANGES.length)]);
     }
 
-    private static void compare(Method m, Object[] values, String where) {
+    /** Returns the answer that is due; an exception answers with its class. */
+    private static Object compare(Method m, Object[] values, String where) {
         calls++;
         Object got = answer(m, played, values);
         Object due = null;
@@ -129,6 +162,7 @@ public final class RandomRunsTest {
         }
         note(m.getName(), values, due);
         Check.same(where + m.getName() + Arrays.toString(values), got, due);
+        return due;
     }
 
     private static void note(String name, Object[] values, Object due) {
@@ -195,6 +229,18 @@ public final class RandomRunsTest {
         }
     }
 
+    /** A cell with units of the same side, near by. */
+    private static int crowd(int unit) {
+        int place = placeOf(unit);
+        int found = draw(63);
+        for (int other = 0; other < 16; other++) {
+            int cell = placeOf(other);
+            boolean isNear = cell != place && Grid.distance(cell, place) <= 4;
+            found = isNear && naive.cell(cell, 4) > 5 ? cell : found;
+        }
+        return found;
+    }
+
     private static int addedAt() {
         return oneIn(30) || isWide ? wild(63) : near(20 + draw(8));
     }
@@ -220,7 +266,7 @@ public final class RandomRunsTest {
             case "reach": return new Object[] {unit};
             case "cost": return new Object[] {unit, wild(63)};
             case "way": return new Object[] {unit, wild(63), oneIn(9) ? wild(63) : draw(6)};
-            case "move": return new Object[] {unit, goal(unit)};
+            case "move": return new Object[] {unit, oneIn(isWide ? 12 : 3) ? crowd(unit) : goal(unit)};
             case "odds":
             case "attack": return fightValues(name, unit);
             case "account": return new Object[] {wild(2), wild(6)};
